@@ -8,7 +8,9 @@ final class DisksTest {
         placesOfBlocks();
         losesAndReplaces();
         keysOfNewDisks();
+        greatestKeyOnAnyDisk();
         rebuilds();
+        rebuildsWithAnyOtherMissing();
         rebuildLooksForNoOther();
         parity();
         Check.end();
@@ -114,6 +116,43 @@ final class DisksTest {
         Check.same("without any", x.keyOf(2), 0);
         x.replace(0);
         Check.same("the greatest is 0", x.keyOf(0), 0);
+    }
+
+    private static void greatestKeyOnAnyDisk() {
+        for (int d = 0; d < 5; d++) {
+            TwinArray x = new TwinArray();
+            int other = (d + 1) % 5;
+            x.takeOver(0);
+            for (int i = 0; i <= d; i++) {
+                Check.steps(x, 0, 2);
+            }
+            for (int i = 0; i < d; i++) {
+                x.lose(i);
+            }
+            x.lose(other);
+            x.replace(other);
+            Check.same("the key of disk " + d, x.keyOf(other), 2);
+            x.takeOver(1);
+            Check.same("one more", x.state(1, 4), 3);
+        }
+    }
+
+    private static void rebuildsWithAnyOtherMissing() {
+        for (int d = 0; d < 5; d++) {
+            for (int other = 0; other < 5; other++) {
+                if (other != d) {
+                    TwinArray x = new TwinArray();
+                    x.lose(d);
+                    x.replace(d);
+                    x.lose(other);
+                    Check.same("rebuild", x.rebuild(d), TwinArray.NONE);
+                    Check.same("parityGood", x.parityGood(0), TwinArray.NONE);
+                    Check.same("read", d < 4 ? x.ticket(x.read(0, d)) : 2, 2);
+                    x.replace(other);
+                    Check.same("rebuild", x.rebuild(d), TwinArray.NONE);
+                }
+            }
+        }
     }
 
     private static void rebuilds() {

@@ -4,13 +4,17 @@ final class DownTest {
         crashesOfNone();
         keepsItsKeyAlone();
         restarts();
+        repairsAreForgotten();
         refusesItsOwnOpenTicketsOnly();
+        refusedStaysRefused();
+        refusesAmongTwoHundred();
         lateWriteLands();
         lateWriteIsRefusedByKey();
         lateWriteOnLostDisk();
         lateWriteOnNewDisk();
         lateWriteHasTheKeyThatIsKept();
         latesInTheirOrder();
+        latesOfManyStripesAndKeys();
         twentyLates();
         Check.end();
     }
@@ -85,6 +89,55 @@ final class DownTest {
         }
         Check.steps(x, 1, 9);
         Check.same("owns nothing", x.ticket(x.read(1, 16)), 2);
+    }
+
+    private static void repairsAreForgotten() {
+        TwinArray x = new TwinArray();
+        Check.mirrored(x, 0, 0, 5);
+        x.flush(0);
+        Check.steps(x, 0, 5);
+        Check.deliver(x);
+        Check.takeOverWhole(x, 1);
+        Check.same("to be repaired", x.state(1, 13), 1);
+        x.crash(1);
+        Check.same("to be repaired", x.state(1, 13), 0);
+        x.restart(1);
+        Check.steps(x, 1, 9);
+    }
+
+    private static void refusedStaysRefused() {
+        TwinArray x = new TwinArray();
+        int never = x.write(0, 16, 4);
+        int open = x.write(0, 0, 5);
+        x.crash(0);
+        x.restart(0);
+        Check.yes("pair", x.pair());
+        Check.makeAlone(x, 0);
+        int t = x.write(0, 0, 6);
+        Check.steps(x, 0, 5, 4, 1, 4, 1, 4);
+        Check.same("done", x.ticket(t), 1);
+        Check.same("refused", x.ticket(open), 2);
+        Check.same("refused", x.ticket(never), 2);
+    }
+
+    private static void refusesAmongTwoHundred() {
+        TwinArray x = new TwinArray();
+        Check.makeAlone(x, 0);
+        for (int t = 0; t < 200; t++) {
+            x.write(0, t % 2, t);
+        }
+        Check.steps(x, 0, 5, 4, 1, 4, 1, 4, 1, 4);
+        Check.same("done", x.ticket(0), 1);
+        Check.same("done", x.ticket(199), 1);
+        Check.yes("crash", x.crash(0));
+        Check.same("done", x.ticket(199), 1);
+        TwinArray y = new TwinArray();
+        for (int t = 0; t < 200; t++) {
+            y.write(0, t % 16, t);
+        }
+        Check.yes("crash", y.crash(0));
+        Check.same("refused", y.ticket(0), 2);
+        Check.same("refused", y.ticket(199), 2);
     }
 
     private static void refusesItsOwnOpenTicketsOnly() {
@@ -199,6 +252,45 @@ final class DownTest {
         Check.same("late", x.late(0), 1);
         Check.same("block 0", Check.onDisk(x, 0), 20);
         Check.same("lates", x.lates(), 0);
+    }
+
+    private static void latesOfManyStripesAndKeys() {
+        TwinArray x = new TwinArray();
+        for (int stripe = 0; stripe < 4; stripe++) {
+            beginWrite(x, 4 * stripe, 30 + stripe);
+            x.crash(0);
+            x.restart(0);
+            Check.takeOverWhole(x, 0);
+            Check.yes("pair", x.pair());
+        }
+        beginWrite(x, 1, 40);
+        x.crash(0);
+        beginWriteOfOne(x);
+        Check.same("lates", x.lates(), 6);
+        Check.same("the disks' key", x.keyOf(0), 5);
+        Check.same("an old key", x.late(1), 0);
+        Check.same("an old key", x.late(2), 0);
+        Check.same("the key of the disks", x.late(2), 1);
+        Check.same("the key of the disks", x.late(2), 1);
+        Check.same("an old key", x.late(1), 0);
+        Check.same("an old key", x.late(0), 0);
+        Check.same("lates", x.lates(), 0);
+        Check.same("block 1", Check.onDisk(x, 1), 40);
+        Check.same("block 30", Check.onDisk(x, 30), 50);
+        for (int stripe = 0; stripe < 4; stripe++) {
+            Check.same("block of an old key", Check.onDisk(x, 4 * stripe), 0);
+        }
+    }
+
+    /** Controller 1 gets its volume back from the other one, and goes down with a write of block 30 under way. */
+    private static void beginWriteOfOne(TwinArray x) {
+        x.restart(0);
+        Check.yes("pair", x.pair());
+        Check.yes("moveOwner", x.moveOwner(1));
+        x.write(1, 30, 50);
+        x.flush(1);
+        Check.steps(x, 1, 5, 4);
+        x.crash(1);
     }
 
     private static void twentyLates() {

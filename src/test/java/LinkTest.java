@@ -5,6 +5,7 @@ final class LinkTest {
         oneBehindTheOther();
         mirrorTakesHigherVersionsOnly();
         gotIsForOpenTicketsOnly();
+        forgetGoesBehindItsMirror();
         forgetIsForItsVersionOnly();
         beatsAreCounted();
         downOrAloneTakesNoNotice();
@@ -76,6 +77,20 @@ final class LinkTest {
     }
 
     private static void forgetIsForItsVersionOnly() {
+        TwinArray x = new TwinArray();
+        Check.mirrored(x, 0, 0, 1);
+        x.cut(true);
+        x.write(0, 0, 2);
+        x.cut(false);
+        x.flush(0);
+        Check.steps(x, 0, 5, 4, 1, 4, 1, 4, 6, 7);
+        Check.arrivals(x, 1, 3, 2, 4, -1);
+        Check.same("of another version: it stays", x.state(1, 1), 1);
+        Check.takeOverWhole(x, 1);
+        Check.same("it", Check.readValue(x, 1, 0), 1);
+    }
+
+    private static void forgetGoesBehindItsMirror() {
         TwinArray x = new TwinArray();
         Check.mirrored(x, 0, 0, 1);
         x.flush(0);

@@ -15,9 +15,12 @@ final class PairTest {
         keepsFlushAndOpenTickets();
         volumeOfNoneIsZeros();
         volumeOfBothStays();
+        volumeOfOneStays();
+        versionsMayBeginAnew();
         moves();
         movesBackAndForth();
         moveDropsEntries();
+        moveDropsAllOfTheVolume();
         moveKeepsTheOtherVolume();
         noMoveOfNothing();
         noMoveUnlessPaired();
@@ -258,6 +261,35 @@ final class PairTest {
         Check.same("1 owns", z.state(1, 10), 0);
     }
 
+    private static void volumeOfOneStays() {
+        TwinArray x = new TwinArray();
+        x.lose(0);
+        x.lose(1);
+        x.takeOver(1);
+        Check.steps(x, 1, 2, 2, 2, 2, 0);
+        x.restart(1);
+        Check.yes("all disks have the key of 1, which owns nothing", x.pair());
+        Check.same("key", x.state(0, 4), 2);
+        Check.same("0 owns", x.state(0, 10), 3);
+        Check.same("1 owns", x.state(1, 10), 0);
+    }
+
+    private static void versionsMayBeginAnew() {
+        TwinArray x = new TwinArray();
+        Check.mirrored(x, 0, 0, 1);
+        Check.mirrored(x, 0, 0, 2);
+        x.flush(0);
+        Check.steps(x, 0, 5, 4, 1, 4, 1, 4);
+        Check.deliver(x);
+        x.crash(0);
+        x.restart(0);
+        Check.yes("pair", x.pair());
+        Check.mirrored(x, 0, 0, 3);
+        Check.same("mirror", x.state(1, 1), 1);
+        Check.takeOverWhole(x, 1);
+        Check.same("read", Check.readValue(x, 1, 0), 3);
+    }
+
     private static void moves() {
         for (int v = 0; v < 2; v++) {
             TwinArray x = new TwinArray();
@@ -301,6 +333,22 @@ final class PairTest {
         Check.deliver(x);
         Check.yes("moveOwner", x.moveOwner(0));
         Check.same("of the disk, not of the old entry", Check.readValue(x, 0, 1), 8);
+    }
+
+    /** An old owner's entries would come to light when it takes the volume over again. */
+    private static void moveDropsAllOfTheVolume() {
+        for (int block : new int[] {0, 7, 15, 16, 31}) {
+            int v = block / 16;
+            TwinArray x = new TwinArray();
+            Check.same("read", Check.readValue(x, v, block), 0);
+            Check.yes("moveOwner", x.moveOwner(v));
+            Check.mirrored(x, 1 - v, block, 8);
+            x.flush(1 - v);
+            Check.steps(x, 1 - v, 5, 4, 1, 4, 1, 4, 6, 7);
+            Check.deliver(x);
+            Check.takeOverWhole(x, v);
+            Check.same("of the disk, not of the old entry", Check.readValue(x, v, block), 8);
+        }
     }
 
     private static void moveKeepsTheOtherVolume() {
@@ -360,9 +408,10 @@ final class PairTest {
     }
 
     private static void noMoveWhileBusy() {
-        for (int v = 0; v < 2; v++) {
+        for (int block : new int[] {0, 6, 15, 16, 25, 31}) {
+            int v = block / 16;
             TwinArray x = new TwinArray();
-            Check.mirrored(x, v, 16 * v + 13, 5);
+            Check.mirrored(x, v, block, 5);
             notMoved("dirty", x, v);
             x.flush(v);
             Check.steps(x, v, 5);

@@ -14,6 +14,8 @@ final class TakeOverTest {
         repairsOfMissingBlocksAreLeftOut();
         notesThatAreToBeRepairedStay();
         againAndAgain();
+        againBeforeRepairs();
+        againWithFewerDisks();
         Check.end();
     }
 
@@ -194,8 +196,8 @@ final class TakeOverTest {
         Check.same("on the disk", Check.onDisk(x, 3), 70);
     }
 
-    /** Controller 0 goes down with the data of blocks 4 and 8 on their disks, the parity not. */
-    private static TwinArray withTornStripes() {
+    /** Controller 0 went down with block 4 on its disk, the parity not; controller 1 has it in its mirror. */
+    private static TwinArray withTornStripe() {
         TwinArray x = new TwinArray();
         Check.mirrored(x, 0, 4, 6);
         x.flush(0);
@@ -208,7 +210,7 @@ final class TakeOverTest {
     }
 
     private static void remarksAreRepaired() {
-        TwinArray x = withTornStripes();
+        TwinArray x = withTornStripe();
         Check.same("remark", x.state(1, 12), 2);
         Check.takeOverWhole(x, 1);
         Check.same("remarks", x.state(1, 12), 0);
@@ -225,7 +227,7 @@ final class TakeOverTest {
     }
 
     private static void repairsOfMissingBlocksAreLeftOut() {
-        TwinArray x = withTornStripes();
+        TwinArray x = withTornStripe();
         Check.takeOverWhole(x, 1);
         x.lose(3);
         x.replace(3);
@@ -233,7 +235,7 @@ final class TakeOverTest {
         Check.same("to be repaired", x.state(1, 13), 0);
         Check.steps(x, 1, 5);
         Check.noSuchElement("no parity was written", () -> x.onDisk(3, 1));
-        TwinArray y = withTornStripes();
+        TwinArray y = withTornStripe();
         Check.takeOverWhole(y, 1);
         y.lose(0);
         Check.steps(y, 1, 3, 5);
@@ -271,5 +273,24 @@ final class TakeOverTest {
         Check.same("key", x.state(1, 4), 4);
         Check.same("key", x.keyOf(4), 4);
         Check.same("owns", x.state(1, 10), 3);
+    }
+
+    private static void againBeforeRepairs() {
+        TwinArray x = withTornStripe();
+        Check.takeOverWhole(x, 1);
+        Check.takeOverWhole(x, 1);
+        Check.same("to be repaired still", x.state(1, 13), 2);
+        Check.same("notes", x.state(1, 11), 2);
+        Check.steps(x, 1, 3, 1);
+        Check.same("repaired", x.parityGood(1), 1);
+    }
+
+    private static void againWithFewerDisks() {
+        TwinArray x = new TwinArray();
+        Check.takeOverWhole(x, 1);
+        x.lose(0);
+        x.lose(1);
+        x.takeOver(1);
+        Check.steps(x, 1, 2, 2, 2, 2, 0);
     }
 }
