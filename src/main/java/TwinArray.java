@@ -116,10 +116,11 @@ public final class TwinArray {
             return NONE;
         }
         int slot = c.inbox.takeFirst();
+        int kind = c.inbox.kinds[slot];
         if (c.up && c.paired) {
-            notice(c, slot);
+            notice(c, kind, slot);
         }
-        return c.inbox.kinds[slot];
+        return kind;
     }
 
     public void cut(boolean on) {
@@ -354,10 +355,10 @@ public final class TwinArray {
         }
     }
 
-    private void notice(Controller c, int slot) {
+    private void notice(Controller c, int kind, int slot) {
         Inbox in = c.inbox;
         int place = in.places[slot];
-        switch (in.kinds[slot]) {
+        switch (kind) {
             case MIRROR:
                 c.mirror.putIfNewer(place, in.values[slot], in.versions[slot]);
                 send(partnerOf(c), GOT, 0, 0, 0, in.tickets[slot]);
@@ -382,6 +383,7 @@ public final class TwinArray {
 
     private void goDown(Controller c) {
         if (c.write.underWay) {
+            // The document: it keeps its key alone, and the write is late with that key, not the one it began with.
             lateWrites.add(c.write, c.key);
         }
         tickets.refuseOpen(c.number);
@@ -495,9 +497,8 @@ public final class TwinArray {
 
     private void goOnDestaging(Controller c) {
         Destage d = c.destage;
-        while (d.nextPlace < DATA_OF_STRIPE) {
-            int place = d.nextPlace;
-            d.nextPlace++;
+        for (int place = d.nextPlace; place < DATA_OF_STRIPE; place++) {
+            d.nextPlace = place + 1;
             int disk = dataDisk(d.stripe, place);
             if (d.wasDirty[place] && disks.there[disk]) {
                 c.write.begin(disk, d.stripe, d.values[place], c.key);
