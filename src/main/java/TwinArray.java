@@ -383,8 +383,7 @@ public final class TwinArray {
 
     private void goDown(Controller c) {
         if (c.write.underWay) {
-            // The document: it keeps its key alone, and the write is late with that key, not the one it began with.
-            lateWrites.add(c.write, c.key);
+            lateWrites.add(c.write);
         }
         tickets.refuseOpen(c.number);
         c.forgetAllButKey();
@@ -685,7 +684,10 @@ public final class TwinArray {
         }
     }
 
-    /** The writes that controllers had under way when they went down. */
+    /**
+     * The writes that controllers had under way when they went down. Each has the key it began with: a controller that
+     * has begun to take over since may have the number that its partner then puts on the disks.
+     */
     private static final class LateWrites {
         final int[] disks = new int[MOST_LATES];
         final int[] stripes = new int[MOST_LATES];
@@ -697,12 +699,12 @@ public final class TwinArray {
             return k >= 0 && k < count;
         }
 
-        void add(DiskWrite w, int key) {
+        void add(DiskWrite w) {
             if (count < MOST_LATES) {
                 disks[count] = w.disk;
                 stripes[count] = w.stripe;
                 values[count] = w.value;
-                keys[count] = key;
+                keys[count] = w.key;
                 count++;
             }
         }

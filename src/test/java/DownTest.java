@@ -12,7 +12,9 @@ final class DownTest {
         lateWriteIsRefusedByKey();
         lateWriteOnLostDisk();
         lateWriteOnNewDisk();
-        lateWriteHasTheKeyThatIsKept();
+        lateWriteHasTheKeyItBeganWith();
+        lateWriteIsRefusedByPartnersEqualKey();
+        lateWriteIsRefusedByItsOwnersNextKey();
         latesInTheirOrder();
         latesOfManyStripesAndKeys();
         twentyLates();
@@ -216,19 +218,53 @@ final class DownTest {
         Check.same("not missing any more", x.onDisk(0, 0), 9);
     }
 
-    private static void lateWriteHasTheKeyThatIsKept() {
+    private static void lateWriteHasTheKeyItBeganWith() {
         TwinArray x = withWriteUnderWay(0);
         x.takeOver(0);
         x.crash(0);
-        Check.same("the key it keeps", x.state(0, 4), 2);
-        Check.same("another one than the disk's", x.late(0), 0);
-        TwinArray y = withWriteUnderWay(0);
-        y.takeOver(0);
-        Check.same("fenced by its own new key", y.ticket(y.read(0, 0)), 2);
-        Check.same("lates", y.lates(), 1);
-        Check.takeOverWhole(y, 1);
-        Check.same("the disk's key is the one it keeps", y.keyOf(0), 2);
-        Check.same("late", y.late(0), 1);
+        Check.same("the key that the controller keeps", x.state(0, 4), 2);
+        Check.same("the disk's key", x.keyOf(0), 1);
+        Check.same("late", x.late(0), 1);
+        Check.same("landed", Check.onDisk(x, 0), 9);
+    }
+
+    /** Both controllers come to key 2, the one that goes down without any disk. */
+    private static void lateWriteIsRefusedByPartnersEqualKey() {
+        TwinArray crashed = withWriteUnderWay(0);
+        crashed.takeOver(0);
+        crashed.crash(0);
+        refusedOnceOneHasTakenOver(crashed);
+        TwinArray restarted = withWriteUnderWay(0);
+        restarted.takeOver(0);
+        restarted.crash(0);
+        restarted.restart(0);
+        refusedOnceOneHasTakenOver(restarted);
+        TwinArray fenced = withWriteUnderWay(0);
+        fenced.takeOver(0);
+        Check.same("refused", fenced.ticket(fenced.read(0, 0)), 2);
+        Check.same("fenced by its own new key", fenced.state(0, 5), 0);
+        refusedOnceOneHasTakenOver(fenced);
+    }
+
+    private static void refusedOnceOneHasTakenOver(TwinArray x) {
+        Check.same("lates", x.lates(), 1);
+        Check.takeOverWhole(x, 1);
+        Check.same("the key that controller 0 keeps", x.state(0, 4), 2);
+        Check.same("the disk's key", x.keyOf(0), 2);
+        Check.same("late", x.late(0), 0);
+        Check.same("gone", x.lates(), 0);
+        Check.same("not landed", Check.onDisk(x, 0), 0);
+    }
+
+    private static void lateWriteIsRefusedByItsOwnersNextKey() {
+        TwinArray x = withWriteUnderWay(0);
+        x.takeOver(0);
+        x.crash(0);
+        x.restart(0);
+        Check.takeOverWhole(x, 0);
+        Check.same("the disk's key", x.keyOf(0), 3);
+        Check.same("late", x.late(0), 0);
+        Check.same("not landed", Check.onDisk(x, 0), 0);
     }
 
     private static void latesInTheirOrder() {
