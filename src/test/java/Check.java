@@ -1,24 +1,29 @@
-import java.util.NoSuchElementException;
 import java.util.function.IntSupplier;
 
 /** What the tests share: checks that print what is not as due, and moves that many runs begin with. */
 final class Check {
     private static int wrong = 0;
+    private static String sentence = "";
 
     private Check() {
+    }
+
+    /** The sentence of the document that the checks behind this are for; it is printed with what is not as due. */
+    static void sentence(String words) {
+        sentence = "[" + words + "] ";
     }
 
     static void same(String what, int got, int due) {
         if (got != due) {
             wrong++;
-            System.out.println(what + ": " + got + ", due is " + due);
+            System.out.println(sentence + where() + " " + what + ": " + got + ", due is " + due);
         }
     }
 
     static void same(String what, String got, String due) {
         if (!got.equals(due)) {
             wrong++;
-            System.out.println(what + ":\n  " + got + "\n  due is\n  " + due);
+            System.out.println(sentence + where() + " " + what + ":\n  " + got + "\n  due is\n  " + due);
         }
     }
 
@@ -31,43 +36,65 @@ final class Check {
     }
 
     static void noSuchElement(String what, IntSupplier call) {
-        String thrown = "nothing";
-        try {
-            call.getAsInt();
-        } catch (NoSuchElementException e) {
-            thrown = "NoSuchElementException";
-        } catch (RuntimeException e) {
-            thrown = e.getClass().getName();
+        same(what + " throws", Run.answer(null, x -> call.getAsInt()), Run.NO_SUCH_ELEMENT);
+    }
+
+    /** Calls that are refused with this answer, and after which all is as it was. */
+    static void refused(String what, Run x, int due, Run.Call... calls) {
+        refusedAs(what, x, String.valueOf(due), calls);
+    }
+
+    /** Calls that throw NoSuchElementException, and after which all is as it was. */
+    static void refusedByThrow(String what, Run x, Run.Call... calls) {
+        refusedAs(what, x, Run.NO_SUCH_ELEMENT, calls);
+    }
+
+    private static void refusedAs(String what, Run x, String due, Run.Call... calls) {
+        String before = Probe.all(x, x.room() - calls.length);
+        for (int i = 0; i < calls.length; i++) {
+            same(what + ", no. " + i, x.attempt(calls[i]), due);
         }
-        same(what + " throws", thrown, "NoSuchElementException");
+        same(what + " changes nothing", Probe.all(x, x.room()), before);
+    }
+
+    /** A write or read that is refused but has a ticket, and after which all else is as it was. */
+    static int refusedWithTicket(String what, Run x, int value, Run.Call call) {
+        String before = Probe.looksBesideTickets(x);
+        int tickets = Probe.tickets(x);
+        int t = x.make(call);
+        same(what + ", its ticket", t, tickets);
+        same(what + ", the ticket", x.ticket(t), 2);
+        same(what + ", the ticket's value", x.value(t), value);
+        same(what + " changes nothing else", Probe.looksBesideTickets(x), before);
+        return t;
     }
 
     /** Steps of one controller, each with the number that is due. */
-    static void steps(TwinArray x, int controller, int... due) {
+    static void steps(Run x, int controller, int... due) {
         for (int i = 0; i < due.length; i++) {
-            same(where() + " step(" + controller + ") no. " + i, x.step(controller), due[i]);
+            same("step(" + controller + ") no. " + i, x.step(controller), due[i]);
         }
     }
 
     /** Arrivals at one controller, each with the number that is due. */
-    static void arrivals(TwinArray x, int controller, int... due) {
+    static void arrivals(Run x, int controller, int... due) {
         for (int i = 0; i < due.length; i++) {
-            same(where() + " arrive(" + controller + ") no. " + i, x.arrive(controller), due[i]);
+            same("arrive(" + controller + ") no. " + i, x.arrive(controller), due[i]);
         }
     }
 
     /** Lets all messages arrive, answers to them too. */
-    static void deliver(TwinArray x) {
+    static void deliver(Run x) {
         for (int i = 0; i < 200; i++) {
             int got = x.arrive(0);
-            if (x.arrive(1) == TwinArray.NONE && got == TwinArray.NONE) {
+            if (x.arrive(1) == Run.NONE && got == Run.NONE) {
                 return;
             }
         }
     }
 
     /** Lets all messages to one controller arrive that are on their way now. */
-    static void deliverTo(TwinArray x, int controller) {
+    static void deliverTo(Run x, int controller) {
         int onTheirWay = x.state(controller, 2);
         for (int i = 0; i < onTheirWay; i++) {
             x.arrive(controller);
@@ -75,36 +102,63 @@ final class Check {
     }
 
     /** Controller 1, which has a write under way, takes over: the write lands before. */
-    static void takesOverBehindItsWrite(TwinArray x) {
-        yes(where() + " takeOver", x.takeOver(1));
+    static void takesOverBehindItsWrite(Run x) {
+        yes("takeOver", x.takeOver(1));
         steps(x, 1, 1, 2, 2, 2, 2, 2, 2);
     }
 
     /** A write that the partner has in its mirror and that is done. */
-    static int mirrored(TwinArray x, int controller, int block, int value) {
+    static int mirrored(Run x, int controller, int block, int value) {
         int t = x.write(controller, block, value);
         deliver(x);
-        same(where() + " a mirrored write's ticket", x.ticket(t), 1);
+        same("a mirrored write's ticket", x.ticket(t), 1);
         return t;
     }
 
     /** Four beats without an answer. */
-    static void makeAlone(TwinArray x, int controller) {
+    static void makeAlone(Run x, int controller) {
         x.cut(true);
         steps(x, controller, 8, 8, 8, 8);
         x.cut(false);
-        same(where() + " paired", x.state(controller, 6), 0);
+        same("paired", x.state(controller, 6), 0);
     }
 
     /** Takes over with all five disks there and nothing under way. */
-    static void takeOverWhole(TwinArray x, int controller) {
-        yes(where() + " takeOver", x.takeOver(controller));
+    static void takeOverWhole(Run x, int controller) {
+        yes("takeOver", x.takeOver(controller));
         steps(x, controller, 2, 2, 2, 2, 2, 2);
     }
 
-    static int readValue(TwinArray x, int controller, int block) {
+    /** Loses each disk whose bit is set. */
+    static void loseAll(Run x, int disks) {
+        for (int d = 0; d < 5; d++) {
+            if ((disks >> d & 1) == 1) {
+                yes("lose", x.lose(d));
+            }
+        }
+    }
+
+    /** What the tests write to a block so that no two blocks, and no exclusive or of some, are the same. */
+    static int someValue(int block) {
+        return 1 + (1 << 16) * (block + 1) + block * block;
+    }
+
+    /** A new object with values in all four blocks of a stripe, on the disks alone; both are paired as at first. */
+    static Run withStripe(int stripe) {
+        Run x = new Run();
+        int owner = stripe / 4;
+        for (int i = 0; i < 4; i++) {
+            x.write(owner, 4 * stripe + i, someValue(4 * stripe + i));
+        }
+        x.flush(owner);
+        steps(x, owner, 5, 4, 1, 4, 1, 4, 1, 4, 1, 4, 1, 4, 6, 7);
+        yes("pair", x.pair());
+        return x;
+    }
+
+    static int readValue(Run x, int controller, int block) {
         int t = x.read(controller, block);
-        same(where() + " read's ticket", x.ticket(t), 1);
+        same("read's ticket", x.ticket(t), 1);
         return x.value(t);
     }
 
@@ -117,53 +171,14 @@ final class Check {
         return new int[] {4, 3, 2, 1, 0, 4, 3, 2}[stripe];
     }
 
-    static int onDisk(TwinArray x, int block) {
+    static int onDisk(Run x, int block) {
         return x.onDisk(disk(block), block / 4);
     }
 
-    /** All that can be seen of an object without changing it. */
-    static String seen(TwinArray x) {
-        StringBuilder s = new StringBuilder();
-        for (int c = 0; c < 2; c++) {
-            s.append(" c").append(c).append(':');
-            for (int what = 0; what < 14; what++) {
-                s.append(' ').append(x.state(c, what));
-            }
-        }
-        for (int d = 0; d < 5; d++) {
-            s.append(" d").append(d).append(" key ").append(x.keyOf(d)).append(':');
-            for (int stripe = 0; stripe < 8; stripe++) {
-                s.append(' ').append(blockOrGap(x, d, stripe));
-            }
-        }
-        s.append(" lates ").append(x.lates()).append(" tickets");
-        for (int t = 0; isTicket(x, t); t++) {
-            s.append(' ').append(x.ticket(t)).append('/').append(x.value(t));
-        }
-        return s.toString();
-    }
-
-    static boolean isTicket(TwinArray x, int t) {
-        try {
-            x.ticket(t);
-            return true;
-        } catch (NoSuchElementException e) {
-            return false;
-        }
-    }
-
-    private static String blockOrGap(TwinArray x, int disk, int stripe) {
-        try {
-            return String.valueOf(x.onDisk(disk, stripe));
-        } catch (NoSuchElementException e) {
-            return "-";
-        }
-    }
-
-    /** The test's own line, so that a wrong answer behind a shared move can be found. */
+    /** The test's own line, so that a wrong answer in a shared move can be found. */
     private static String where() {
         for (StackTraceElement e : new Throwable().getStackTrace()) {
-            if (!e.getClassName().equals("Check")) {
+            if (e.getClassName().endsWith("Test")) {
                 return e.getFileName() + ":" + e.getLineNumber();
             }
         }

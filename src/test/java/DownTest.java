@@ -22,22 +22,22 @@ final class DownTest {
     }
 
     private static void crashesOfNone() {
-        TwinArray x = new TwinArray();
-        String before = Check.seen(x);
+        Run x = new Run();
+        String before = Probe.looks(x);
         for (int c : new int[] {-1, 2, Integer.MAX_VALUE, Integer.MIN_VALUE}) {
             Check.no("crash", x.crash(c));
             Check.no("restart", x.restart(c));
         }
         Check.no("restart of one that is up", x.restart(0));
-        Check.same("changed nothing", Check.seen(x), before);
+        Check.same("changed nothing", Probe.looks(x), before);
         Check.yes("crash", x.crash(0));
         Check.no("crash of one that is down", x.crash(0));
         Check.same("the other one is up", x.state(1, 5), 1);
         Check.same("the other one is paired", x.state(1, 6), 1);
     }
 
-    private static TwinArray withAllOfOne() {
-        TwinArray x = new TwinArray();
+    private static Run withAllOfOne() {
+        Run x = new Run();
         Check.mirrored(x, 0, 0, 5);
         x.flush(0);
         Check.steps(x, 0, 5);
@@ -50,14 +50,14 @@ final class DownTest {
     }
 
     private static void keepsItsKeyAlone() {
-        TwinArray x = withAllOfOne();
+        Run x = withAllOfOne();
         Check.yes("crash", x.crash(1));
         int[] due = {0, 0, 0, 0, 2, 0, 0, 0, 0, -1, 0, 0, 0, 0};
         for (int what = 0; what < due.length; what++) {
             Check.same("state " + what, x.state(1, what), due[what]);
         }
         Check.same("late", x.lates(), 1);
-        TwinArray y = new TwinArray();
+        Run y = new Run();
         Check.mirrored(y, 1, 22, 3);
         y.flush(1);
         Check.steps(y, 1, 5);
@@ -79,7 +79,7 @@ final class DownTest {
     }
 
     private static void restarts() {
-        TwinArray x = withAllOfOne();
+        Run x = withAllOfOne();
         x.crash(1);
         x.write(0, 1, 6);
         Check.same("messages", x.state(1, 2), 1);
@@ -94,7 +94,7 @@ final class DownTest {
     }
 
     private static void repairsAreForgotten() {
-        TwinArray x = new TwinArray();
+        Run x = new Run();
         Check.mirrored(x, 0, 0, 5);
         x.flush(0);
         Check.steps(x, 0, 5);
@@ -108,7 +108,7 @@ final class DownTest {
     }
 
     private static void refusedStaysRefused() {
-        TwinArray x = new TwinArray();
+        Run x = new Run();
         int never = x.write(0, 16, 4);
         int open = x.write(0, 0, 5);
         x.crash(0);
@@ -123,7 +123,7 @@ final class DownTest {
     }
 
     private static void refusesAmongTwoHundred() {
-        TwinArray x = new TwinArray();
+        Run x = new Run();
         Check.makeAlone(x, 0);
         for (int t = 0; t < 200; t++) {
             x.write(0, t % 2, t);
@@ -133,7 +133,7 @@ final class DownTest {
         Check.same("done", x.ticket(199), 1);
         Check.yes("crash", x.crash(0));
         Check.same("done", x.ticket(199), 1);
-        TwinArray y = new TwinArray();
+        Run y = new Run();
         for (int t = 0; t < 200; t++) {
             y.write(0, t % 16, t);
         }
@@ -143,7 +143,7 @@ final class DownTest {
     }
 
     private static void refusesItsOwnOpenTicketsOnly() {
-        TwinArray x = new TwinArray();
+        Run x = new Run();
         int done = Check.mirrored(x, 0, 0, 5);
         int open = x.write(0, 1, 6);
         int others = x.write(1, 16, 7);
@@ -155,44 +155,44 @@ final class DownTest {
     }
 
     /** Controller 0 has a write of a block of its volume under way, with the value 9. */
-    private static TwinArray withWriteUnderWay(int block) {
-        TwinArray x = new TwinArray();
+    private static Run withWriteUnderWay(int block) {
+        Run x = new Run();
         beginWrite(x, block, 9);
         return x;
     }
 
-    private static void beginWrite(TwinArray x, int block, int value) {
+    private static void beginWrite(Run x, int block, int value) {
         x.write(0, block, value);
         x.flush(0);
         Check.steps(x, 0, 5, 4);
     }
 
     private static void lateWriteLands() {
-        TwinArray x = withWriteUnderWay(6);
-        Check.same("none late", x.late(0), TwinArray.NONE);
+        Run x = withWriteUnderWay(6);
+        Check.same("none late", x.late(0), Run.NONE);
         x.crash(0);
         Check.same("lates", x.lates(), 1);
         for (int k : new int[] {-1, 1, 20, Integer.MAX_VALUE, Integer.MIN_VALUE}) {
-            Check.same("late", x.late(k), TwinArray.NONE);
+            Check.same("late", x.late(k), Run.NONE);
         }
         Check.same("lates", x.lates(), 1);
         Check.same("not landed", Check.onDisk(x, 6), 0);
         Check.same("late", x.late(0), 1);
         Check.same("landed", Check.onDisk(x, 6), 9);
         Check.same("gone", x.lates(), 0);
-        Check.same("late", x.late(0), TwinArray.NONE);
+        Check.same("late", x.late(0), Run.NONE);
         Check.same("without its parity", x.parityGood(1), 0);
     }
 
     private static void lateWriteIsRefusedByKey() {
-        TwinArray x = withWriteUnderWay(6);
+        Run x = withWriteUnderWay(6);
         x.crash(0);
         x.takeOver(1);
         Check.steps(x, 1, 2, 2, 2);
         Check.same("late", x.late(0), 0);
         Check.same("gone", x.lates(), 0);
         Check.same("not landed", Check.onDisk(x, 6), 0);
-        TwinArray y = withWriteUnderWay(6);
+        Run y = withWriteUnderWay(6);
         y.crash(0);
         y.takeOver(1);
         Check.steps(y, 1, 2, 2);
@@ -200,7 +200,7 @@ final class DownTest {
     }
 
     private static void lateWriteOnLostDisk() {
-        TwinArray x = withWriteUnderWay(0);
+        Run x = withWriteUnderWay(0);
         x.crash(0);
         x.lose(0);
         Check.same("late", x.late(0), 0);
@@ -210,7 +210,7 @@ final class DownTest {
     }
 
     private static void lateWriteOnNewDisk() {
-        TwinArray x = withWriteUnderWay(0);
+        Run x = withWriteUnderWay(0);
         x.crash(0);
         x.lose(0);
         x.replace(0);
@@ -219,7 +219,7 @@ final class DownTest {
     }
 
     private static void lateWriteHasTheKeyItBeganWith() {
-        TwinArray x = withWriteUnderWay(0);
+        Run x = withWriteUnderWay(0);
         x.takeOver(0);
         x.crash(0);
         Check.same("the key that the controller keeps", x.state(0, 4), 2);
@@ -230,23 +230,23 @@ final class DownTest {
 
     /** Both controllers come to key 2, the one that goes down without any disk. */
     private static void lateWriteIsRefusedByPartnersEqualKey() {
-        TwinArray crashed = withWriteUnderWay(0);
+        Run crashed = withWriteUnderWay(0);
         crashed.takeOver(0);
         crashed.crash(0);
         refusedOnceOneHasTakenOver(crashed);
-        TwinArray restarted = withWriteUnderWay(0);
+        Run restarted = withWriteUnderWay(0);
         restarted.takeOver(0);
         restarted.crash(0);
         restarted.restart(0);
         refusedOnceOneHasTakenOver(restarted);
-        TwinArray fenced = withWriteUnderWay(0);
+        Run fenced = withWriteUnderWay(0);
         fenced.takeOver(0);
         Check.same("refused", fenced.ticket(fenced.read(0, 0)), 2);
         Check.same("fenced by its own new key", fenced.state(0, 5), 0);
         refusedOnceOneHasTakenOver(fenced);
     }
 
-    private static void refusedOnceOneHasTakenOver(TwinArray x) {
+    private static void refusedOnceOneHasTakenOver(Run x) {
         Check.same("lates", x.lates(), 1);
         Check.takeOverWhole(x, 1);
         Check.same("the key that controller 0 keeps", x.state(0, 4), 2);
@@ -257,7 +257,7 @@ final class DownTest {
     }
 
     private static void lateWriteIsRefusedByItsOwnersNextKey() {
-        TwinArray x = withWriteUnderWay(0);
+        Run x = withWriteUnderWay(0);
         x.takeOver(0);
         x.crash(0);
         x.restart(0);
@@ -268,7 +268,7 @@ final class DownTest {
     }
 
     private static void latesInTheirOrder() {
-        TwinArray x = new TwinArray();
+        Run x = new Run();
         for (int i = 0; i < 4; i++) {
             beginWrite(x, i, 20 + i);
             x.crash(0);
@@ -282,7 +282,7 @@ final class DownTest {
         Check.same("block 2", Check.onDisk(x, 2), 22);
         Check.same("block 0", Check.onDisk(x, 0), 0);
         Check.same("block 3", Check.onDisk(x, 3), 0);
-        Check.same("late", x.late(2), TwinArray.NONE);
+        Check.same("late", x.late(2), Run.NONE);
         Check.same("late", x.late(1), 1);
         Check.same("block 3", Check.onDisk(x, 3), 23);
         Check.same("late", x.late(0), 1);
@@ -291,7 +291,7 @@ final class DownTest {
     }
 
     private static void latesOfManyStripesAndKeys() {
-        TwinArray x = new TwinArray();
+        Run x = new Run();
         for (int stripe = 0; stripe < 4; stripe++) {
             beginWrite(x, 4 * stripe, 30 + stripe);
             x.crash(0);
@@ -319,7 +319,7 @@ final class DownTest {
     }
 
     /** Controller 1 gets its volume back from the other one, and goes down with a write of block 30 under way. */
-    private static void beginWriteOfOne(TwinArray x) {
+    private static void beginWriteOfOne(Run x) {
         x.restart(0);
         Check.yes("pair", x.pair());
         Check.yes("moveOwner", x.moveOwner(1));
@@ -330,7 +330,7 @@ final class DownTest {
     }
 
     private static void twentyLates() {
-        TwinArray x = new TwinArray();
+        Run x = new Run();
         for (int i = 0; i < 21; i++) {
             Check.same("lates", x.lates(), Math.min(i, 20));
             beginWrite(x, i % 16, 100 + i);
@@ -339,7 +339,7 @@ final class DownTest {
             Check.yes("pair", x.pair());
         }
         Check.same("at most 20", x.lates(), 20);
-        Check.same("late", x.late(20), TwinArray.NONE);
+        Check.same("late", x.late(20), Run.NONE);
         Check.same("late", x.late(19), 1);
         Check.same("the twentieth", Check.onDisk(x, 3), 119);
         Check.same("the next one was lost", Check.onDisk(x, 4), 0);

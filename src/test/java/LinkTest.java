@@ -16,11 +16,11 @@ final class LinkTest {
     }
 
     private static void arrivalsAtNone() {
-        TwinArray x = new TwinArray();
+        Run x = new Run();
         x.step(0);
         x.step(1);
         for (int c : new int[] {-1, 2, Integer.MAX_VALUE, Integer.MIN_VALUE}) {
-            Check.same("arrive", x.arrive(c), TwinArray.NONE);
+            Check.same("arrive", x.arrive(c), Run.NONE);
         }
         Check.same("messages", x.state(0, 2), 1);
         Check.same("messages", x.state(1, 2), 1);
@@ -29,7 +29,7 @@ final class LinkTest {
     }
 
     private static void oneBehindTheOther() {
-        TwinArray x = new TwinArray();
+        Run x = new Run();
         x.write(0, 0, 1);
         x.flush(0);
         Check.steps(x, 0, 5, 4, 1, 4, 1, 4, 6, 7, 8);
@@ -50,7 +50,7 @@ final class LinkTest {
     }
 
     private static void mirrorTakesHigherVersionsOnly() {
-        TwinArray x = new TwinArray();
+        Run x = new Run();
         int first = x.write(0, 5, 1);
         int second = x.write(0, 5, 2);
         Check.deliver(x);
@@ -61,14 +61,14 @@ final class LinkTest {
     }
 
     private static void gotIsForOpenTicketsOnly() {
-        TwinArray x = new TwinArray();
+        Run x = new Run();
         int t = x.write(0, 5, 1);
         Check.arrivals(x, 1, 0);
         x.crash(0);
         Check.same("refused", x.ticket(t), 2);
         Check.arrivals(x, 0, 1);
         Check.same("stays refused", x.ticket(t), 2);
-        TwinArray y = new TwinArray();
+        Run y = new Run();
         int u = y.write(0, 5, 1);
         Check.arrivals(y, 1, 0);
         Check.steps(y, 0, 8, 8, 8, 8);
@@ -77,7 +77,7 @@ final class LinkTest {
     }
 
     private static void forgetIsForItsVersionOnly() {
-        TwinArray x = new TwinArray();
+        Run x = new Run();
         Check.mirrored(x, 0, 0, 1);
         x.cut(true);
         x.write(0, 0, 2);
@@ -91,7 +91,7 @@ final class LinkTest {
     }
 
     private static void forgetGoesBehindItsMirror() {
-        TwinArray x = new TwinArray();
+        Run x = new Run();
         Check.mirrored(x, 0, 0, 1);
         x.flush(0);
         Check.steps(x, 0, 5, 4, 1, 4, 1, 4);
@@ -116,7 +116,7 @@ final class LinkTest {
     }
 
     private static void beatsAreCounted() {
-        TwinArray x = new TwinArray();
+        Run x = new Run();
         Check.steps(x, 0, 8, 8, 8);
         Check.steps(x, 1, 8);
         Check.arrivals(x, 0, 5);
@@ -132,7 +132,7 @@ final class LinkTest {
     }
 
     private static void downOrAloneTakesNoNotice() {
-        TwinArray x = new TwinArray();
+        Run x = new Run();
         x.write(0, 0, 1);
         x.flush(0);
         Check.steps(x, 0, 5);
@@ -141,7 +141,7 @@ final class LinkTest {
         Check.same("mirror", x.state(1, 1), 0);
         Check.same("remarks", x.state(1, 12), 0);
         Check.same("no GOT", x.state(0, 2), 0);
-        TwinArray y = new TwinArray();
+        Run y = new Run();
         Check.makeAlone(y, 1);
         y.write(0, 0, 1);
         y.flush(0);
@@ -153,7 +153,7 @@ final class LinkTest {
     }
 
     private static void fortyMessages() {
-        TwinArray x = new TwinArray();
+        Run x = new Run();
         for (int i = 0; i < 41; i++) {
             x.write(0, i % 16, i);
         }
@@ -175,7 +175,7 @@ final class LinkTest {
     }
 
     private static void eachControllerHasItsOwnForty() {
-        TwinArray x = new TwinArray();
+        Run x = new Run();
         for (int i = 0; i < 45; i++) {
             x.write(0, 0, i);
             x.write(1, 16, i);
@@ -193,7 +193,7 @@ final class LinkTest {
     }
 
     private static void cutLinks() {
-        TwinArray x = new TwinArray();
+        Run x = new Run();
         int before = x.write(0, 0, 1);
         x.cut(true);
         int lost = x.write(0, 1, 2);

@@ -30,7 +30,7 @@ final class PairTest {
     }
 
     private static void pairsAgain() {
-        TwinArray x = new TwinArray();
+        Run x = new Run();
         Check.steps(x, 0, 8, 8);
         Check.yes("pair", x.pair());
         Check.same("missed", x.state(0, 3), 0);
@@ -44,15 +44,15 @@ final class PairTest {
         Check.same("missed", x.state(0, 3) + x.state(1, 3), 0);
     }
 
-    private static void refused(String what, TwinArray x) {
-        String before = Check.seen(x);
+    private static void refused(String what, Run x) {
+        String before = Probe.looks(x);
         Check.no(what, x.pair());
-        Check.same(what + " changed nothing", Check.seen(x), before);
+        Check.same(what + " changed nothing", Probe.looks(x), before);
     }
 
     private static void notWhileDown() {
         for (int c = 0; c < 2; c++) {
-            TwinArray x = new TwinArray();
+            Run x = new Run();
             x.crash(c);
             refused("down", x);
             x.restart(c);
@@ -62,7 +62,7 @@ final class PairTest {
 
     private static void notWhileTakingOver() {
         for (int c = 0; c < 2; c++) {
-            TwinArray x = new TwinArray();
+            Run x = new Run();
             x.takeOver(c);
             refused("taking over, all keys are the other one's", x);
             Check.steps(x, c, 2, 2, 2, 2, 2);
@@ -75,7 +75,7 @@ final class PairTest {
 
     private static void notWhileDirtyOrNoted() {
         for (int c = 0; c < 2; c++) {
-            TwinArray x = new TwinArray();
+            Run x = new Run();
             x.write(c, 16 * c, 5);
             refused("dirty", x);
             x.flush(c);
@@ -88,7 +88,7 @@ final class PairTest {
     }
 
     private static void notWhileDestaging() {
-        TwinArray x = new TwinArray();
+        Run x = new Run();
         x.write(0, 0, 5);
         x.flush(0);
         Check.steps(x, 0, 5);
@@ -96,7 +96,7 @@ final class PairTest {
     }
 
     private static void notWhileWriteIsUnderWay() {
-        TwinArray x = new TwinArray();
+        Run x = new Run();
         x.write(0, 0, 5);
         x.flush(0);
         Check.steps(x, 0, 5, 4);
@@ -104,7 +104,7 @@ final class PairTest {
     }
 
     private static void notWhileCut() {
-        TwinArray x = new TwinArray();
+        Run x = new Run();
         x.cut(true);
         refused("cut", x);
         x.cut(false);
@@ -112,7 +112,7 @@ final class PairTest {
     }
 
     private static void notWithOtherKeys() {
-        TwinArray x = new TwinArray();
+        Run x = new Run();
         x.takeOver(0);
         Check.steps(x, 0, 2);
         x.crash(0);
@@ -121,7 +121,7 @@ final class PairTest {
         x.lose(0);
         Check.yes("the one with the other key is lost", x.pair());
         Check.same("key", x.state(0, 4), 1);
-        TwinArray y = new TwinArray();
+        Run y = new Run();
         Check.takeOverWhole(y, 0);
         y.lose(3);
         y.takeOver(0);
@@ -131,7 +131,7 @@ final class PairTest {
     }
 
     private static void withoutAnyDisk() {
-        TwinArray x = new TwinArray();
+        Run x = new Run();
         for (int d = 0; d < 5; d++) {
             x.lose(d);
         }
@@ -140,7 +140,7 @@ final class PairTest {
     }
 
     private static void notBeforeMirrorIsTakenOver() {
-        TwinArray x = new TwinArray();
+        Run x = new Run();
         Check.mirrored(x, 0, 15, 5);
         x.crash(0);
         x.restart(0);
@@ -149,7 +149,7 @@ final class PairTest {
         Check.steps(x, 1, 5, 4, 1, 4, 1, 4, 6, 9);
         Check.yes("pair", x.pair());
         Check.same("owns", x.state(1, 10), 3);
-        TwinArray y = new TwinArray();
+        Run y = new Run();
         Check.mirrored(y, 1, 16, 5);
         y.crash(1);
         y.restart(1);
@@ -159,7 +159,7 @@ final class PairTest {
         Check.yes("without the mirror entry", y.pair());
         Check.same("owns both", y.state(0, 10), 3);
         Check.same("owns none", y.state(1, 10), 0);
-        TwinArray z = new TwinArray();
+        Run z = new Run();
         Check.mirrored(z, 0, 0, 5);
         z.flush(0);
         Check.steps(z, 0, 5, 4, 1, 4, 1, 4, 6);
@@ -167,7 +167,7 @@ final class PairTest {
         z.crash(1);
         z.restart(1);
         Check.yes("volume 1 is none's", z.pair());
-        TwinArray w = new TwinArray();
+        Run w = new Run();
         Check.mirrored(w, 0, 0, 5);
         w.flush(0);
         Check.steps(w, 0, 5, 4, 1, 4, 1, 4, 6);
@@ -176,7 +176,7 @@ final class PairTest {
     }
 
     private static void clearsWhatWas() {
-        TwinArray x = new TwinArray();
+        Run x = new Run();
         Check.mirrored(x, 1, 20, 5);
         x.flush(1);
         Check.steps(x, 1, 5);
@@ -201,7 +201,7 @@ final class PairTest {
     }
 
     private static void keepsFlushAndOpenTickets() {
-        TwinArray x = new TwinArray();
+        Run x = new Run();
         x.cut(true);
         int t = x.write(0, 0, 5);
         x.cut(false);
@@ -222,7 +222,7 @@ final class PairTest {
 
     private static void volumeOfNoneIsZeros() {
         for (int c = 0; c < 2; c++) {
-            TwinArray x = new TwinArray();
+            Run x = new Run();
             x.crash(c);
             x.restart(c);
             Check.same("owns none", x.state(c, 10), 0);
@@ -233,20 +233,20 @@ final class PairTest {
     }
 
     private static void volumeOfBothStays() {
-        TwinArray x = new TwinArray();
+        Run x = new Run();
         Check.takeOverWhole(x, 0);
         Check.same("both own volume 1", x.state(0, 10) & x.state(1, 10), 2);
         Check.yes("pair", x.pair());
         Check.same("0 owns", x.state(0, 10), 3);
         Check.same("1 owns", x.state(1, 10), 0);
         Check.same("keys", x.state(0, 4) * 10 + x.state(1, 4), 22);
-        TwinArray y = new TwinArray();
+        Run y = new Run();
         Check.takeOverWhole(y, 1);
         Check.yes("pair", y.pair());
         Check.same("0 owns", y.state(0, 10), 0);
         Check.same("1 owns", y.state(1, 10), 3);
         Check.same("keys", y.state(0, 4) * 10 + y.state(1, 4), 22);
-        TwinArray z = new TwinArray();
+        Run z = new Run();
         Check.takeOverWhole(z, 0);
         for (int d = 0; d < 5; d++) {
             z.lose(d);
@@ -262,7 +262,7 @@ final class PairTest {
     }
 
     private static void volumeOfOneStays() {
-        TwinArray x = new TwinArray();
+        Run x = new Run();
         x.lose(0);
         x.lose(1);
         x.takeOver(1);
@@ -275,7 +275,7 @@ final class PairTest {
     }
 
     private static void versionsMayBeginAnew() {
-        TwinArray x = new TwinArray();
+        Run x = new Run();
         Check.mirrored(x, 0, 0, 1);
         Check.mirrored(x, 0, 0, 2);
         x.flush(0);
@@ -292,7 +292,7 @@ final class PairTest {
 
     private static void moves() {
         for (int v = 0; v < 2; v++) {
-            TwinArray x = new TwinArray();
+            Run x = new Run();
             Check.yes("moveOwner", x.moveOwner(v));
             Check.same("from", x.state(v, 10), 0);
             Check.same("to", x.state(1 - v, 10), 3);
@@ -304,7 +304,7 @@ final class PairTest {
     }
 
     private static void movesBackAndForth() {
-        TwinArray x = new TwinArray();
+        Run x = new Run();
         Check.yes("moveOwner", x.moveOwner(0));
         Check.yes("moveOwner", x.moveOwner(1));
         Check.same("crossed", x.state(0, 10) * 10 + x.state(1, 10), 21);
@@ -314,7 +314,7 @@ final class PairTest {
     }
 
     private static void moveDropsEntries() {
-        TwinArray x = new TwinArray();
+        Run x = new Run();
         Check.same("read", Check.readValue(x, 0, 0), 0);
         Check.mirrored(x, 0, 1, 5);
         x.flush(0);
@@ -339,7 +339,7 @@ final class PairTest {
     private static void moveDropsAllOfTheVolume() {
         for (int block : new int[] {0, 7, 15, 16, 31}) {
             int v = block / 16;
-            TwinArray x = new TwinArray();
+            Run x = new Run();
             Check.same("read", Check.readValue(x, v, block), 0);
             Check.yes("moveOwner", x.moveOwner(v));
             Check.mirrored(x, 1 - v, block, 8);
@@ -352,7 +352,7 @@ final class PairTest {
     }
 
     private static void moveKeepsTheOtherVolume() {
-        TwinArray x = new TwinArray();
+        Run x = new Run();
         Check.yes("moveOwner", x.moveOwner(1));
         Check.mirrored(x, 0, 0, 5);
         Check.same("read", Check.readValue(x, 0, 1), 0);
@@ -364,31 +364,31 @@ final class PairTest {
         Check.same("cache entry", Check.readValue(x, 0, 1), 0);
     }
 
-    private static void notMoved(String what, TwinArray x, int volume) {
-        String before = Check.seen(x);
+    private static void notMoved(String what, Run x, int volume) {
+        String before = Probe.looks(x);
         Check.no(what, x.moveOwner(volume));
-        Check.same(what + " changed nothing", Check.seen(x), before);
+        Check.same(what + " changed nothing", Probe.looks(x), before);
     }
 
     private static void noMoveOfNothing() {
         for (int v : new int[] {-1, 2, 3, Integer.MAX_VALUE, Integer.MIN_VALUE}) {
-            notMoved("no such volume", new TwinArray(), v);
+            notMoved("no such volume", new Run(), v);
         }
     }
 
     private static void noMoveUnlessPaired() {
         for (int c = 0; c < 2; c++) {
-            TwinArray x = new TwinArray();
+            Run x = new Run();
             x.crash(c);
             notMoved("down", x, 0);
             notMoved("down", x, 1);
             x.restart(c);
             notMoved("alone", x, 0);
             notMoved("alone", x, 1);
-            TwinArray y = new TwinArray();
+            Run y = new Run();
             Check.takeOverWhole(y, c);
             notMoved("both own it, one is alone", y, 1 - c);
-            TwinArray z = new TwinArray();
+            Run z = new Run();
             Check.makeAlone(z, c);
             notMoved("alone", z, 0);
             notMoved("alone", z, 1);
@@ -397,7 +397,7 @@ final class PairTest {
 
     private static void noMoveWithMessages() {
         for (int c = 0; c < 2; c++) {
-            TwinArray x = new TwinArray();
+            Run x = new Run();
             Check.steps(x, c, 8);
             notMoved("a message", x, 0);
             notMoved("a message", x, 1);
@@ -410,7 +410,7 @@ final class PairTest {
     private static void noMoveWhileBusy() {
         for (int block : new int[] {0, 6, 15, 16, 25, 31}) {
             int v = block / 16;
-            TwinArray x = new TwinArray();
+            Run x = new Run();
             Check.mirrored(x, v, block, 5);
             notMoved("dirty", x, v);
             x.flush(v);

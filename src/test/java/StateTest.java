@@ -8,12 +8,12 @@ final class StateTest {
     }
 
     private static void flushes() {
-        TwinArray x = new TwinArray();
-        String before = Check.seen(x);
+        Run x = new Run();
+        String before = Probe.looks(x);
         for (int c : new int[] {-1, 2, Integer.MAX_VALUE, Integer.MIN_VALUE}) {
             Check.no("flush", x.flush(c));
         }
-        Check.same("changed nothing", Check.seen(x), before);
+        Check.same("changed nothing", Probe.looks(x), before);
         Check.yes("flush", x.flush(1));
         Check.yes("flush again", x.flush(1));
         Check.same("told", x.state(1, 8), 1);
@@ -29,25 +29,25 @@ final class StateTest {
     }
 
     private static void statesOfNothing() {
-        TwinArray x = new TwinArray();
+        Run x = new Run();
         for (int what = -1; what < 16; what++) {
-            Check.same("state(-1)", x.state(-1, what), TwinArray.NONE);
-            Check.same("state(2)", x.state(2, what), TwinArray.NONE);
+            Check.same("state(-1)", x.state(-1, what), Run.NONE);
+            Check.same("state(2)", x.state(2, what), Run.NONE);
         }
         for (int what : new int[] {-1, 14, 15, Integer.MAX_VALUE, Integer.MIN_VALUE}) {
-            Check.same("state", x.state(0, what), TwinArray.NONE);
-            Check.same("state", x.state(1, what), TwinArray.NONE);
+            Check.same("state", x.state(0, what), Run.NONE);
+            Check.same("state", x.state(1, what), Run.NONE);
         }
     }
 
-    private static void states(String when, TwinArray x, int controller, int... due) {
+    private static void states(String when, Run x, int controller, int... due) {
         for (int what = 0; what < due.length; what++) {
             Check.same(when + ", state " + what, x.state(controller, what), due[what]);
         }
     }
 
     private static void eachOfFourteen() {
-        TwinArray x = new TwinArray();
+        Run x = new Run();
         Check.mirrored(x, 0, 0, 1);
         Check.mirrored(x, 0, 1, 1);
         Check.mirrored(x, 0, 8, 1);

@@ -28,9 +28,9 @@ final class StepsTest {
     }
 
     private static void stepsOfNone() {
-        TwinArray x = new TwinArray();
+        Run x = new Run();
         for (int c : new int[] {-1, 2, Integer.MAX_VALUE, Integer.MIN_VALUE}) {
-            Check.same("step", x.step(c), TwinArray.NONE);
+            Check.same("step", x.step(c), Run.NONE);
         }
         x.crash(1);
         Check.steps(x, 1, 0, 0);
@@ -39,7 +39,7 @@ final class StepsTest {
     }
 
     private static void beatsUntilAlone() {
-        TwinArray x = new TwinArray();
+        Run x = new Run();
         for (int beats = 1; beats <= 3; beats++) {
             Check.steps(x, 0, 8);
             Check.same("missed", x.state(0, 3), beats);
@@ -57,7 +57,7 @@ final class StepsTest {
     }
 
     private static void flushOfNothing() {
-        TwinArray x = new TwinArray();
+        Run x = new Run();
         x.flush(0);
         Check.steps(x, 0, 7, 8);
         Check.same("told to flush", x.state(0, 8), 0);
@@ -67,13 +67,13 @@ final class StepsTest {
     }
 
     private static void notTakenUnlessToldOrAlone() {
-        TwinArray x = new TwinArray();
+        Run x = new Run();
         x.write(0, 0, 4);
         Check.steps(x, 0, 8);
         x.flush(0);
         Check.steps(x, 0, 5);
         Check.same("destages", x.state(0, 9), 0);
-        TwinArray y = new TwinArray();
+        Run y = new Run();
         y.write(1, 31, 4);
         Check.makeAlone(y, 1);
         Check.steps(y, 1, 5);
@@ -82,7 +82,7 @@ final class StepsTest {
     }
 
     private static void theDirtiestStripe() {
-        TwinArray x = new TwinArray();
+        Run x = new Run();
         x.write(0, 0, 1);
         x.write(0, 4, 1);
         x.write(0, 6, 1);
@@ -103,7 +103,7 @@ final class StepsTest {
     }
 
     private static void wholeDestagingWhilePaired() {
-        TwinArray x = new TwinArray();
+        Run x = new Run();
         int first = Check.mirrored(x, 1, 21, 5);
         int second = Check.mirrored(x, 1, 23, 6);
         x.flush(1);
@@ -122,7 +122,7 @@ final class StepsTest {
         Check.same("destages still", x.state(1, 9), 5);
         Check.steps(x, 1, 4);
         Check.same("not dirty", x.state(1, 0), 0);
-        Check.same("destages none", x.state(1, 9), TwinArray.NONE);
+        Check.same("destages none", x.state(1, 9), Run.NONE);
         Check.arrivals(x, 0, 3, 2, 2, -1);
         Check.same("remark", x.state(0, 12), 1 << 5);
         Check.same("mirror entries", x.state(0, 1), 0);
@@ -134,7 +134,7 @@ final class StepsTest {
     }
 
     private static void writtenAgainWhileDestaging() {
-        TwinArray x = new TwinArray();
+        Run x = new Run();
         Check.mirrored(x, 0, 0, 5);
         Check.mirrored(x, 0, 1, 6);
         x.flush(0);
@@ -160,7 +160,7 @@ final class StepsTest {
     }
 
     private static void writtenAgainWhileDestagingAlone() {
-        TwinArray x = new TwinArray();
+        Run x = new Run();
         Check.makeAlone(x, 0);
         int before = x.write(0, 0, 5);
         Check.steps(x, 0, 5, 4, 1);
@@ -178,7 +178,7 @@ final class StepsTest {
     }
 
     private static void valuesAreThoseTaken() {
-        TwinArray x = new TwinArray();
+        Run x = new Run();
         x.write(0, 0, 5);
         x.write(0, 1, 6);
         x.flush(0);
@@ -195,7 +195,7 @@ final class StepsTest {
     }
 
     private static void otherDataComeFromTheDisks() {
-        TwinArray x = new TwinArray();
+        Run x = new Run();
         x.write(0, 2, 12);
         Check.makeAlone(x, 0);
         Check.steps(x, 0, 5, 4, 1, 4, 1, 4, 6);
@@ -209,7 +209,7 @@ final class StepsTest {
     }
 
     private static void lostDisksAreLeftOut() {
-        TwinArray x = new TwinArray();
+        Run x = new Run();
         for (int i = 0; i < 4; i++) {
             x.write(0, i, 1 + i);
         }
@@ -229,14 +229,14 @@ final class StepsTest {
     }
 
     private static void lostParityIsLeftOut() {
-        TwinArray x = new TwinArray();
+        Run x = new Run();
         x.write(0, 0, 8);
         x.lose(4);
         x.flush(0);
         Check.steps(x, 0, 5, 4, 1, 4);
-        Check.same("destages none", x.state(0, 9), TwinArray.NONE);
+        Check.same("destages none", x.state(0, 9), Run.NONE);
         Check.same("disk 0", x.onDisk(0, 0), 8);
-        TwinArray y = new TwinArray();
+        Run y = new Run();
         y.write(0, 0, 8);
         y.flush(0);
         Check.steps(y, 0, 5);
@@ -244,7 +244,7 @@ final class StepsTest {
         y.lose(4);
         Check.steps(y, 0, 4, 6);
         Check.same("not dirty, though nothing was written", y.state(0, 0), 0);
-        TwinArray z = new TwinArray();
+        Run z = new Run();
         z.lose(4);
         z.replace(4);
         z.write(0, 0, 8);
@@ -254,7 +254,7 @@ final class StepsTest {
     }
 
     private static void lostDataLeaveParityOut() {
-        TwinArray x = new TwinArray();
+        Run x = new Run();
         x.lose(1);
         x.lose(2);
         x.write(0, 0, 8);
@@ -265,7 +265,7 @@ final class StepsTest {
         Check.steps(x, 0, 4, 1, 4, 6);
         Check.same("disk 0", x.onDisk(0, 0), 8);
         Check.same("parity as it was", x.onDisk(4, 0), 0);
-        TwinArray y = new TwinArray();
+        Run y = new Run();
         y.lose(1);
         y.lose(2);
         y.write(0, 1, 5);
@@ -285,7 +285,7 @@ final class StepsTest {
     }
 
     private static void dataLostLaterDoNotMatter() {
-        TwinArray x = new TwinArray();
+        Run x = new Run();
         x.write(0, 0, 8);
         x.flush(0);
         Check.steps(x, 0, 5);
@@ -296,7 +296,7 @@ final class StepsTest {
     }
 
     private static void landsOnLostDisk() {
-        TwinArray x = new TwinArray();
+        Run x = new Run();
         x.write(0, 0, 8);
         x.flush(0);
         Check.steps(x, 0, 5, 4);
@@ -311,7 +311,7 @@ final class StepsTest {
     }
 
     private static void landsOnNewDisk() {
-        TwinArray x = new TwinArray();
+        Run x = new Run();
         x.write(0, 0, 8);
         x.flush(0);
         Check.steps(x, 0, 5, 4);
@@ -325,7 +325,7 @@ final class StepsTest {
     }
 
     private static void landsByTheKeyItBeganWith() {
-        TwinArray x = new TwinArray();
+        Run x = new Run();
         x.write(0, 0, 8);
         x.flush(0);
         Check.steps(x, 0, 5, 4);
@@ -337,7 +337,7 @@ final class StepsTest {
     }
 
     private static void fencedWhileLanding() {
-        TwinArray x = new TwinArray();
+        Run x = new Run();
         int t = x.write(0, 0, 8);
         x.flush(0);
         Check.steps(x, 0, 5, 4);
@@ -351,7 +351,7 @@ final class StepsTest {
     }
 
     private static void notesCloseFromTheLowest() {
-        TwinArray x = new TwinArray();
+        Run x = new Run();
         for (int block = 12; block >= 4; block -= 4) {
             Check.mirrored(x, 0, block, block);
             x.flush(0);
@@ -378,7 +378,7 @@ final class StepsTest {
     }
 
     private static void oldOpenWritesAreDoneToo() {
-        TwinArray x = new TwinArray();
+        Run x = new Run();
         x.cut(true);
         int first = x.write(0, 0, 1);
         int second = x.write(0, 0, 2);
@@ -393,7 +393,7 @@ final class StepsTest {
     }
 
     private static void openWritesOfOthersStayOpen() {
-        TwinArray x = new TwinArray();
+        Run x = new Run();
         int zeros = x.write(0, 0, 1);
         Check.deliverTo(x, 1);
         Check.takeOverWhole(x, 1);
@@ -405,7 +405,7 @@ final class StepsTest {
     }
 
     private static void landingGoesFirst() {
-        TwinArray x = new TwinArray();
+        Run x = new Run();
         Check.mirrored(x, 0, 0, 3);
         Check.mirrored(x, 1, 16, 4);
         x.flush(0);
@@ -424,7 +424,7 @@ final class StepsTest {
     }
 
     private static void destagingGoesOnAfterTakingOver() {
-        TwinArray x = new TwinArray();
+        Run x = new Run();
         int t = x.write(0, 0, 3);
         x.flush(0);
         Check.steps(x, 0, 5);

@@ -20,12 +20,12 @@ final class TakeOverTest {
     }
 
     private static void refusals() {
-        TwinArray x = new TwinArray();
-        String before = Check.seen(x);
+        Run x = new Run();
+        String before = Probe.looks(x);
         for (int c : new int[] {-1, 2, Integer.MAX_VALUE, Integer.MIN_VALUE}) {
             Check.no("takeOver", x.takeOver(c));
         }
-        Check.same("changed nothing", Check.seen(x), before);
+        Check.same("changed nothing", Probe.looks(x), before);
         x.crash(1);
         Check.no("down", x.takeOver(1));
         Check.yes("takeOver", x.takeOver(0));
@@ -38,7 +38,7 @@ final class TakeOverTest {
     }
 
     private static void begins() {
-        TwinArray x = new TwinArray();
+        Run x = new Run();
         Check.steps(x, 0, 8, 8);
         Check.yes("takeOver", x.takeOver(0));
         Check.same("alone", x.state(0, 6), 0);
@@ -56,7 +56,7 @@ final class TakeOverTest {
     }
 
     private static void keyIsOneMoreThanTheGreatest() {
-        TwinArray x = new TwinArray();
+        Run x = new Run();
         x.takeOver(0);
         Check.steps(x, 0, 2, 2, 2, 2);
         x.lose(4);
@@ -66,13 +66,13 @@ final class TakeOverTest {
         x.restart(1);
         x.takeOver(1);
         Check.same("than its own", x.state(1, 4), 4);
-        TwinArray y = new TwinArray();
+        Run y = new Run();
         y.takeOver(0);
         Check.steps(y, 0, 2);
         y.lose(0);
         y.takeOver(1);
         Check.same("a lost disk's key does not count", y.state(1, 4), 2);
-        TwinArray z = new TwinArray();
+        Run z = new Run();
         for (int d = 0; d < 5; d++) {
             z.lose(d);
         }
@@ -82,7 +82,7 @@ final class TakeOverTest {
     }
 
     private static void diskByDisk() {
-        TwinArray x = new TwinArray();
+        Run x = new Run();
         x.takeOver(1);
         for (int d = 0; d < 5; d++) {
             Check.same("key before", x.keyOf(d), 1);
@@ -100,18 +100,18 @@ final class TakeOverTest {
     }
 
     private static void fourDisksAreEnough() {
-        TwinArray x = new TwinArray();
+        Run x = new Run();
         x.lose(1);
         x.takeOver(0);
         Check.steps(x, 0, 2, 2, 2, 2, 2);
         Check.same("owns", x.state(0, 10), 3);
         Check.same("taking over", x.state(0, 7), 0);
         Check.same("key", x.keyOf(4), 2);
-        Check.same("lost", x.keyOf(1), TwinArray.NONE);
+        Check.same("lost", x.keyOf(1), Run.NONE);
     }
 
     private static void threeDisksAreNot() {
-        TwinArray x = new TwinArray();
+        Run x = new Run();
         int open = x.write(0, 0, 1);
         x.lose(0);
         x.lose(3);
@@ -129,7 +129,7 @@ final class TakeOverTest {
     }
 
     private static void disksThatComeAndGoMeanwhile() {
-        TwinArray x = new TwinArray();
+        Run x = new Run();
         x.lose(0);
         x.lose(4);
         x.takeOver(0);
@@ -140,7 +140,7 @@ final class TakeOverTest {
         x.lose(1);
         Check.steps(x, 0, 2, 2, 2);
         Check.same("1, 2, 3, 4 were four, though 1 is lost by now", x.state(0, 10), 3);
-        TwinArray y = new TwinArray();
+        Run y = new Run();
         y.lose(0);
         y.lose(1);
         y.takeOver(0);
@@ -148,7 +148,7 @@ final class TakeOverTest {
         y.replace(0);
         y.replace(1);
         Check.steps(y, 0, 2, 2, 2, 0);
-        TwinArray z = new TwinArray();
+        Run z = new Run();
         z.takeOver(0);
         Check.steps(z, 0, 2, 2, 2, 2);
         z.takeOver(1);
@@ -163,7 +163,7 @@ final class TakeOverTest {
     }
 
     private static void mirrorBecomesDirty() {
-        TwinArray x = new TwinArray();
+        Run x = new Run();
         Check.mirrored(x, 0, 3, 30);
         Check.mirrored(x, 0, 14, 40);
         x.write(1, 17, 50);
@@ -181,7 +181,7 @@ final class TakeOverTest {
     }
 
     private static void mirrorVersionsAreNew() {
-        TwinArray x = new TwinArray();
+        Run x = new Run();
         for (int i = 0; i < 5; i++) {
             Check.mirrored(x, 0, 3, i);
         }
@@ -197,8 +197,8 @@ final class TakeOverTest {
     }
 
     /** Controller 0 went down with block 4 on its disk, the parity not; controller 1 has it in its mirror. */
-    private static TwinArray withTornStripe() {
-        TwinArray x = new TwinArray();
+    private static Run withTornStripe() {
+        Run x = new Run();
         Check.mirrored(x, 0, 4, 6);
         x.flush(0);
         Check.steps(x, 0, 5, 4, 1);
@@ -210,7 +210,7 @@ final class TakeOverTest {
     }
 
     private static void remarksAreRepaired() {
-        TwinArray x = withTornStripe();
+        Run x = withTornStripe();
         Check.same("remark", x.state(1, 12), 2);
         Check.takeOverWhole(x, 1);
         Check.same("remarks", x.state(1, 12), 0);
@@ -227,7 +227,7 @@ final class TakeOverTest {
     }
 
     private static void repairsOfMissingBlocksAreLeftOut() {
-        TwinArray x = withTornStripe();
+        Run x = withTornStripe();
         Check.takeOverWhole(x, 1);
         x.lose(3);
         x.replace(3);
@@ -235,7 +235,7 @@ final class TakeOverTest {
         Check.same("to be repaired", x.state(1, 13), 0);
         Check.steps(x, 1, 5);
         Check.noSuchElement("no parity was written", () -> x.onDisk(3, 1));
-        TwinArray y = withTornStripe();
+        Run y = withTornStripe();
         Check.takeOverWhole(y, 1);
         y.lose(0);
         Check.steps(y, 1, 3, 5);
@@ -243,7 +243,7 @@ final class TakeOverTest {
     }
 
     private static void notesThatAreToBeRepairedStay() {
-        TwinArray x = new TwinArray();
+        Run x = new Run();
         x.write(0, 12, 1);
         x.write(0, 4, 2);
         x.flush(0);
@@ -263,7 +263,7 @@ final class TakeOverTest {
     }
 
     private static void againAndAgain() {
-        TwinArray x = new TwinArray();
+        Run x = new Run();
         Check.takeOverWhole(x, 0);
         Check.takeOverWhole(x, 1);
         Check.same("key", x.keyOf(2), 3);
@@ -276,7 +276,7 @@ final class TakeOverTest {
     }
 
     private static void againBeforeRepairs() {
-        TwinArray x = withTornStripe();
+        Run x = withTornStripe();
         Check.takeOverWhole(x, 1);
         Check.takeOverWhole(x, 1);
         Check.same("to be repaired still", x.state(1, 13), 2);
@@ -286,7 +286,7 @@ final class TakeOverTest {
     }
 
     private static void againWithFewerDisks() {
-        TwinArray x = new TwinArray();
+        Run x = new Run();
         Check.takeOverWhole(x, 1);
         x.lose(0);
         x.lose(1);

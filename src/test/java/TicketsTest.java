@@ -18,7 +18,7 @@ final class TicketsTest {
     }
 
     private static void writesAtTheOwner() {
-        TwinArray x = new TwinArray();
+        Run x = new Run();
         Check.same("first ticket", x.write(0, 0, Integer.MIN_VALUE), 0);
         Check.same("second ticket", x.write(0, 15, Integer.MAX_VALUE), 1);
         Check.same("third ticket", x.write(1, 16, -1), 2);
@@ -41,7 +41,7 @@ final class TicketsTest {
     }
 
     private static void writesThatAreRefused() {
-        TwinArray x = new TwinArray();
+        Run x = new Run();
         Check.same("ticket", x.write(0, 16, 7), 0);
         Check.same("ticket", x.write(1, 15, 8), 1);
         x.crash(0);
@@ -57,23 +57,23 @@ final class TicketsTest {
     }
 
     private static void writesToNothing() {
-        TwinArray x = new TwinArray();
-        String before = Check.seen(x);
+        Run x = new Run();
+        String before = Probe.looks(x);
         int[] noController = {-1, 2, Integer.MAX_VALUE, Integer.MIN_VALUE};
         int[] noBlock = {-1, 32, Integer.MAX_VALUE, Integer.MIN_VALUE};
         for (int i = 0; i < 4; i++) {
-            Check.same("write", x.write(noController[i], 0, 1), TwinArray.NONE);
-            Check.same("write", x.write(0, noBlock[i], 1), TwinArray.NONE);
-            Check.same("write", x.write(1, noBlock[i], 1), TwinArray.NONE);
-            Check.same("read", x.read(noController[i], 0), TwinArray.NONE);
-            Check.same("read", x.read(0, noBlock[i]), TwinArray.NONE);
-            Check.same("read", x.read(1, noBlock[i]), TwinArray.NONE);
+            Check.same("write", x.write(noController[i], 0, 1), Run.NONE);
+            Check.same("write", x.write(0, noBlock[i], 1), Run.NONE);
+            Check.same("write", x.write(1, noBlock[i], 1), Run.NONE);
+            Check.same("read", x.read(noController[i], 0), Run.NONE);
+            Check.same("read", x.read(0, noBlock[i]), Run.NONE);
+            Check.same("read", x.read(1, noBlock[i]), Run.NONE);
         }
-        Check.same("changed nothing", Check.seen(x), before);
+        Check.same("changed nothing", Probe.looks(x), before);
     }
 
     private static void writesWhileAlone() {
-        TwinArray x = new TwinArray();
+        Run x = new Run();
         Check.makeAlone(x, 0);
         int t = x.write(0, 2, 6);
         Check.same("no message of one that is alone", x.state(1, 2), 0);
@@ -85,7 +85,7 @@ final class TicketsTest {
     }
 
     private static void writesAreNotFenced() {
-        TwinArray x = new TwinArray();
+        Run x = new Run();
         Check.takeOverWhole(x, 1);
         int t = x.write(0, 0, 5);
         Check.same("open, though all disks have another key", x.ticket(t), 0);
@@ -93,7 +93,7 @@ final class TicketsTest {
     }
 
     private static void readsOfCacheAndDisks() {
-        TwinArray x = new TwinArray();
+        Run x = new Run();
         for (int i = 0; i < 4; i++) {
             x.write(0, 4 + i, 50 + i);
         }
@@ -116,8 +116,8 @@ final class TicketsTest {
         Check.same("read of the cache", Check.readValue(x, 1, 4), 99);
     }
 
-    private static TwinArray withFullStripe() {
-        TwinArray x = new TwinArray();
+    private static Run withFullStripe() {
+        Run x = new Run();
         for (int i = 0; i < 4; i++) {
             x.write(0, i, 10 << i);
         }
@@ -130,7 +130,7 @@ final class TicketsTest {
     }
 
     private static void readsOfMissingBlocks() {
-        TwinArray x = withFullStripe();
+        Run x = withFullStripe();
         x.lose(2);
         Check.same("by the others", Check.readValue(x, 0, 2), 40);
         Check.same("there", Check.readValue(x, 0, 1), 20);
@@ -147,7 +147,7 @@ final class TicketsTest {
     }
 
     private static void readsKeepAnEntry() {
-        TwinArray x = withFullStripe();
+        Run x = withFullStripe();
         Check.same("read", Check.readValue(x, 0, 1), 20);
         x.lose(1);
         x.lose(3);
@@ -160,7 +160,7 @@ final class TicketsTest {
     }
 
     private static void readsThatAreRefused() {
-        TwinArray x = withFullStripe();
+        Run x = withFullStripe();
         int ofOther = x.read(1, 0);
         Check.same("not the owner's", x.ticket(ofOther), 2);
         Check.same("value", x.value(ofOther), 0);
@@ -171,7 +171,7 @@ final class TicketsTest {
     }
 
     private static void readsThatFence() {
-        TwinArray x = withFullStripe();
+        Run x = withFullStripe();
         Check.same("read", Check.readValue(x, 0, 0), 10);
         int open = x.write(0, 1, 5);
         x.takeOver(1);
@@ -188,7 +188,7 @@ final class TicketsTest {
     }
 
     private static void readsThatDoNotFence() {
-        TwinArray x = withFullStripe();
+        Run x = withFullStripe();
         x.takeOver(1);
         Check.steps(x, 1, 2, 2, 2);
         Check.same("not its volume", x.ticket(x.read(0, 16)), 2);
@@ -198,30 +198,30 @@ final class TicketsTest {
         x.replace(1);
         Check.same("fenced by the new disk's key", x.ticket(x.read(0, 1)), 2);
         Check.same("down", x.state(0, 5), 0);
-        TwinArray y = new TwinArray();
+        Run y = new Run();
         y.takeOver(0);
         Check.same("fenced by its own new key", y.ticket(y.read(0, 0)), 2);
         Check.same("down", y.state(0, 5), 0);
     }
 
     private static void twoHundredTickets() {
-        TwinArray x = new TwinArray();
+        Run x = new Run();
         for (int t = 0; t < 200; t++) {
             boolean isWrite = t % 2 == 0;
             Check.same("ticket", isWrite ? x.write(0, t % 16, t) : x.read(1, 16 + t % 16), t);
         }
         Check.takeOverWhole(x, 1);
-        String before = Check.seen(x);
-        Check.same("write", x.write(0, 0, 1), TwinArray.NONE);
-        Check.same("write that would be refused", x.write(0, 16, 1), TwinArray.NONE);
-        Check.same("read that would fence", x.read(0, 0), TwinArray.NONE);
-        Check.same("changed nothing", Check.seen(x), before);
+        String before = Probe.looks(x);
+        Check.same("write", x.write(0, 0, 1), Run.NONE);
+        Check.same("write that would be refused", x.write(0, 16, 1), Run.NONE);
+        Check.same("read that would fence", x.read(0, 0), Run.NONE);
+        Check.same("changed nothing", Probe.looks(x), before);
         Check.same("the last ticket", x.value(198), 198);
         Check.same("the last ticket", x.ticket(199), 1);
     }
 
     private static void ticketsThatAreNot() {
-        TwinArray x = new TwinArray();
+        Run x = new Run();
         x.write(0, 0, 1);
         for (int t : new int[] {-1, 1, 200, Integer.MAX_VALUE, Integer.MIN_VALUE}) {
             Check.noSuchElement("ticket(" + t + ")", () -> x.ticket(t));
