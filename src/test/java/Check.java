@@ -156,6 +156,32 @@ final class Check {
         return x;
     }
 
+    /**
+     * A new object, as at first but that each controller has missed a beat, has entries of its own and of its partner's
+     * blocks, and a remark; nothing is dirty or noted, and no message is on its way.
+     */
+    static Run withRemains() {
+        Run x = new Run();
+        x.write(0, 15, someValue(15));
+        x.write(1, 31, someValue(31));
+        deliver(x);
+        for (int c = 0; c < 2; c++) {
+            same("read", readValue(x, c, 16 * c), 0);
+            x.flush(c);
+            steps(x, c, 5);
+            arrivals(x, 1 - c, 3);
+            x.cut(true);
+            steps(x, c, 4, 1, 4, 1, 4, 6, 7, 8);
+            x.cut(false);
+        }
+        for (int c = 0; c < 2; c++) {
+            same("mirror entries, missed beats", x.mirrored(c) * 10 + x.missedBeats(c), 11);
+            same("remarks", x.remarks(c), c == 0 ? 128 : 8);
+            same("messages, dirty entries, notes", x.messages(c) + x.dirty(c) + x.notes(c), 0);
+        }
+        return x;
+    }
+
     static int readValue(Run x, int controller, int block) {
         int t = x.read(controller, block);
         same("read's ticket", x.ticket(t), 1);

@@ -66,8 +66,8 @@ final class DownTest {
         y.takeOver(0);
         Check.steps(y, 0, 2);
         Check.steps(y, 1, 4, 1, 4, 1, 4);
-        Check.same("mirror, remarks, beats, taking over", y.state(0, 1) + y.state(0, 12) + y.state(0, 3) + y.state(0, 7),
-            1 + 32 + 2 + 1);
+        Check.same("mirror, remarks, beats, taking over",
+            y.state(0, 1) + y.state(0, 12) + y.state(0, 3) + y.state(0, 7), 1 + 32 + 2 + 1);
         y.crash(0);
         Check.same("none of them", y.state(0, 1) + y.state(0, 12) + y.state(0, 3) + y.state(0, 7), 0);
         Check.same("messages to it stay", y.state(0, 2), 1);

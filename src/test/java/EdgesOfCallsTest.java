@@ -36,10 +36,12 @@ final class EdgesOfCallsTest {
     private static void beatsOfOneThatIsAlone() {
         Run x = new Run();
         Check.steps(x, 0, 8, 8, 8, 8);
-        while (x.room() > 1) {
+        while (x.room() > 3) {
             Check.steps(x, 0, 9);
         }
         Check.same("messages", x.messages(1), 4);
+        Check.yes("flush", x.flush(0));
+        Check.steps(x, 0, 7);
         isUsedUp(x);
     }
 

@@ -65,7 +65,7 @@ final class EdgesOfDisksTest {
     }
 
     private static void missingWhileLostOrNotRebuilt() {
-        Check.sentence("Terms: a block on each disk, which is MISSING while the disk is lost, or not rebuilt");
+        Check.sentence("Terms: a block (an int) on each disk, which is MISSING while the disk is lost, or not rebuilt");
         for (int d = 0; d < 5; d++) {
             int disk = d;
             for (int s = 0; s < 8; s++) {
@@ -105,7 +105,8 @@ final class EdgesOfDisksTest {
         for (int block = 0; block < 32; block++) {
             Run x = Check.withStripe(block / 4);
             Check.loseAll(x, 31 & ~(1 << Check.disk(block)));
-            Check.same("of its disk alone, block " + block, Check.readValue(x, block / 16, block), Check.someValue(block));
+            int value = Check.readValue(x, block / 16, block);
+            Check.same("of its disk alone, block " + block, value, Check.someValue(block));
         }
     }
 
@@ -145,7 +146,7 @@ final class EdgesOfDisksTest {
         Check.sentence("Promise 15: false when it is");
         for (int disk = 0; disk < 5; disk++) {
             int d = disk;
-            Run x = Check.withStripe(0);
+            Run x = Check.withRemains();
             Check.yes("lose", x.lose(d));
             Check.refused("lost", x, 0, y -> Run.bit(y.lose(d)));
             x.replace(d);
@@ -164,7 +165,7 @@ final class EdgesOfDisksTest {
         Check.sentence("Promise 16: A lost disk is there anew");
         for (int disk = 0; disk < 5; disk++) {
             int d = disk;
-            Run x = Check.withStripe(2);
+            Run x = Check.withRemains();
             Check.refused("there", x, 0, y -> Run.bit(y.replace(d)));
             x.lose(d);
             Check.yes("replace", x.replace(d));
@@ -173,7 +174,7 @@ final class EdgesOfDisksTest {
     }
 
     private static void replaceOfNoDisk() {
-        Check.sentence("Promise 16 and the last row of Terms: numbers that are not as said are refused");
+        Check.sentence("Promise 16 and Terms: Calls with numbers that are not as said are refused");
         Run x = Check.withStripe(3);
         Check.loseAll(x, 31);
         for (int disk : NO_DISK) {
@@ -259,7 +260,7 @@ final class EdgesOfDisksTest {
         Check.sentence("Promise 17: NONE when the disk is lost");
         for (int disk = 0; disk < 5; disk++) {
             int d = disk;
-            Run x = Check.withStripe(0);
+            Run x = Check.withRemains();
             x.lose(d);
             Check.refused("lost", x, Run.NONE, y -> y.rebuild(d));
             x.replace(d);
@@ -268,7 +269,7 @@ final class EdgesOfDisksTest {
     }
 
     private static void rebuildOfNoDisk() {
-        Check.sentence("Promise 17 and the last row of Terms: numbers that are not as said are refused");
+        Check.sentence("Promise 17 and Terms: Calls with numbers that are not as said are refused");
         Run x = Check.withStripe(0);
         x.lose(0);
         x.replace(0);
@@ -278,7 +279,7 @@ final class EdgesOfDisksTest {
     }
 
     private static void rebuildOfNothing() {
-        Check.sentence("Promise 17: NONE when nothing is missing");
+        Check.sentence("Promise 17: NONE when ... nothing is missing");
         for (int disk = 0; disk < 5; disk++) {
             int d = disk;
             Check.refused("whole", Check.withStripe(5), Run.NONE, y -> y.rebuild(d));
@@ -288,7 +289,7 @@ final class EdgesOfDisksTest {
         }
     }
 
-    /** The disk's lowest missing block is in stripe 0 or, for the second run, in stripe 1, where another is missing, too. */
+    /** In the disk's lowest stripe that is missing, which is 0 or, for the second run, 1, another is missing, too. */
     private static void rebuildWithAnotherMissing() {
         Check.sentence("Promise 17: or one of these is missing (no other stripe is looked for then)");
         for (int disk = 0; disk < 5; disk++) {
@@ -391,7 +392,7 @@ final class EdgesOfDisksTest {
     }
 
     private static void onDiskOfNone() {
-        Check.sentence("Promise 21: NoSuchElementException: or there is none");
+        Check.sentence("Promise 21: NoSuchElementException: ... or there is none");
         Run x = Check.withStripe(7);
         Check.same("the first one", x.onDisk(0, 0), 0);
         Check.same("the last one", x.onDisk(4, 7), Check.someValue(31));

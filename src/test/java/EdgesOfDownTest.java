@@ -5,7 +5,9 @@ final class EdgesOfDownTest {
     public static void main(String[] args) {
         keepsItsKeyAlone();
         lateOnlyIfUnderWay();
+        lateWithTheKeyItBeganWith();
         twentyLatesAndOneMore();
+        twentyLatesOfBoth();
         roomForLatesAgain();
         itsOpenTicketsAreRefused();
         messagesToItStay();
@@ -19,6 +21,7 @@ final class EdgesOfDownTest {
         lateWithAnotherKey();
         lateIsGoneThen();
         lateInTheirOrder();
+        lateWithTheKeyOfItsOwn();
         lateThatThereIsNot();
         latesAreCounted();
         Check.end();
@@ -119,6 +122,26 @@ final class EdgesOfDownTest {
         Check.same("parity", repairing.onDisk(4, 0), 5);
     }
 
+    /** The controller may have a new key by then, which its partner may come to have, too. */
+    private static void lateWithTheKeyItBeganWith() {
+        Check.sentence(
+            "Terms: a disk write it had under way is LATE, with that key ... had still under way is refused by them");
+        Run before = new Run();
+        beginWrite(before, 0, 9);
+        before.takeOver(0);
+        before.crash(0);
+        Check.same("the disk has the key of then", before.late(0), 1);
+        Check.same("landed", Check.onDisk(before, 0), 9);
+        Run behind = new Run();
+        beginWrite(behind, 0, 9);
+        behind.takeOver(0);
+        behind.crash(0);
+        Check.takeOverWhole(behind, 1);
+        Check.same("both have the key of the disks", behind.key(0) * 10 + behind.keyOf(0), 22);
+        Check.same("refused", behind.late(0), 0);
+        Check.same("nothing landed", Check.onDisk(behind, 0), 0);
+    }
+
     private static void twentyLatesAndOneMore() {
         Check.sentence("Terms: (at most 20; others are lost)");
         Run x = withLates(19);
@@ -135,6 +158,25 @@ final class EdgesOfDownTest {
         }
         Check.same("no more", x.late(0), Run.NONE);
         Check.same("the first that was lost", Check.onDisk(x, 4), 104);
+    }
+
+    private static void twentyLatesOfBoth() {
+        Check.sentence("Terms: (at most 20; others are lost)");
+        Run x = withLates(19);
+        for (int i = 0; i < 2; i++) {
+            x.write(1, 16 + i, 150 + i);
+            x.flush(1);
+            Check.steps(x, 1, 5, 4);
+            x.crash(1);
+            x.restart(1);
+            Check.yes("pair", x.pair());
+            Check.yes("back to 1", x.moveOwner(1));
+            Check.same("lates", x.lates(), 20);
+        }
+        Check.same("the twentieth", x.late(19), 1);
+        Check.same("of the other controller", Check.onDisk(x, 16), 150);
+        Check.same("one more of it was lost", x.late(19), Run.NONE);
+        Check.same("nothing landed", Check.onDisk(x, 17), 0);
     }
 
     private static void roomForLatesAgain() {
@@ -208,7 +250,7 @@ final class EdgesOfDownTest {
     }
 
     private static void crashOfNoController() {
-        Check.sentence("Promise 9 and the last row of Terms: numbers that are not as said are refused");
+        Check.sentence("Promise 9 and Terms: Calls with numbers that are not as said are refused");
         Run x = withLates(1);
         beginWrite(x, 3, 7);
         for (int n : NO_CONTROLLER) {
@@ -232,17 +274,20 @@ final class EdgesOfDownTest {
     }
 
     private static void restartOfNoController() {
-        Check.sentence("Promise 10 and the last row of Terms: numbers that are not as said are refused");
+        Check.sentence("Promise 10 and Terms: Calls with numbers that are not as said are refused");
         Run x = withLates(1);
         x.write(1, 16, 6);
-        x.crash(0);
-        for (int n : NO_CONTROLLER) {
-            Check.refused("controller " + n, x, 0, y -> Run.bit(y.restart(n)));
+        for (int c = 0; c < 2; c++) {
+            x.crash(c);
+            for (int n : NO_CONTROLLER) {
+                Check.refused("controller " + n, x, 0, y -> Run.bit(y.restart(n)));
+            }
         }
     }
 
     private static void restartedIsAsSaid() {
-        Check.sentence("Promise 10: alone, owning nothing, no beats missed, with the key it had; messages to it are gone");
+        Check.sentence(
+            "Promise 10: alone, owning nothing, no beats missed, with the key it had; messages to it are gone");
         for (int count = 0; count <= 40; count += 40) {
             Run x = new Run();
             Check.steps(x, 1, 8, 8, 8);
@@ -269,7 +314,7 @@ final class EdgesOfDownTest {
     }
 
     private static void lateLandsByItsKey() {
-        Check.sentence("Promise 18: Late write k lands: 1");
+        Check.sentence("Promise 18: Late write k ... lands: 1");
         Run x = withLates(1);
         Check.same("lands", x.late(0), 1);
         Check.same("landed", x.onDisk(0, 0), 100);
@@ -293,7 +338,7 @@ final class EdgesOfDownTest {
 
     /** Disks 0 .. taken - 1 have another key than the late writes of blocks 0, 1, 2, 3 on disks 0, 1, 2, 3. */
     private static void lateWithAnotherKey() {
-        Check.sentence("Promise 18: 0 when the disk has another key than the write");
+        Check.sentence("Promise 18: 0 when the disk ... has another key than the write");
         for (int taken = 0; taken <= 4; taken++) {
             Run x = withLates(4);
             x.takeOver(1);
@@ -345,6 +390,30 @@ final class EdgesOfDownTest {
                 if (block != k) {
                     Check.same("the next one", x.late(0), 1);
                     Check.same("block " + block, Check.onDisk(x, block), 100 + block);
+                }
+            }
+        }
+    }
+
+    /** Writes of keys 1, 2 and 3; the disks have key 3. */
+    private static void lateWithTheKeyOfItsOwn() {
+        Check.sentence("Promise 18: 0 when the disk ... has another key than the write");
+        for (int first = 0; first < 3; first++) {
+            Run x = new Run();
+            for (int i = 0; i < 3; i++) {
+                beginWrite(x, i, 100 + i);
+                x.crash(0);
+                x.restart(0);
+                if (i < 2) {
+                    Check.takeOverWhole(x, 0);
+                }
+                Check.yes("pair", x.pair());
+            }
+            Check.same("key", x.keyOf(0), 3);
+            Check.same("the key of write " + first, x.late(first), first == 2 ? 1 : 0);
+            for (int i = 0; i < 3; i++) {
+                if (i != first) {
+                    Check.same("then the key of write " + i, x.late(0), i == 2 ? 1 : 0);
                 }
             }
         }

@@ -12,6 +12,7 @@ final class EdgesOfMessagesTest {
         oneBehindTheOther();
         fortyMirrors();
         fortiethAndFortyFirstOfEachKind();
+        fourAtOnceWithRoomForTwo();
         fortyGoRoundAndRound();
         fortyToOneThatIsDown();
         lostWhileCut();
@@ -19,6 +20,7 @@ final class EdgesOfMessagesTest {
         downTakesNoNotice();
         aloneTakesNoNotice();
         mirrorIfThereIsNone();
+        mirrorIfThereIsNoneAnyMore();
         mirrorOverALowerVersion();
         gotIfItIsOpen();
         forgetIfItIsOfThisVersion();
@@ -182,6 +184,26 @@ final class EdgesOfMessagesTest {
         Check.same("a lost beat is missed, too", beat.missedBeats(0), 1);
     }
 
+    /** FORGET goes for all four blocks of a stripe in one step. */
+    private static void fourAtOnceWithRoomForTwo() {
+        Check.sentence("Terms: at most 40 are on their way; one more is lost");
+        for (int room = 0; room <= 4; room++) {
+            Run x = new Run();
+            for (int block = 0; block < 4; block++) {
+                x.write(0, block, 9);
+            }
+            Check.deliverTo(x, 1);
+            x.flush(0);
+            Check.steps(x, 0, 5, 4, 1, 4, 1, 4, 1, 4, 1, 4, 1);
+            withMirrors(x, 40 - room);
+            Check.steps(x, 0, 4);
+            Check.same("messages", x.messages(1), 40);
+            Check.same("not dirty, but for that of the other messages", x.dirty(0), 1);
+            Check.deliverTo(x, 1);
+            Check.same("room for " + room + ", mirror", x.mirrored(1), 1 + 4 - room);
+        }
+    }
+
     private static void fortyGoRoundAndRound() {
         Check.sentence("Terms: at most 40 are on their way; one more is lost");
         Run x = new Run();
@@ -206,7 +228,7 @@ final class EdgesOfMessagesTest {
     }
 
     private static void fortyToOneThatIsDown() {
-        Check.sentence("Terms: at most 40 are on their way; messages to it stay");
+        Check.sentence("Terms: at most 40 are on their way ... messages to it stay");
         Run x = new Run();
         x.write(0, 0, 1);
         x.crash(1);
@@ -355,7 +377,27 @@ final class EdgesOfMessagesTest {
         }
     }
 
-    /** A version that is not lower can't come to be: messages keep their order, and versions grow until all is cleared. */
+    /** Versions begin anew behind a restart; what was there before does not count when it is gone. */
+    private static void mirrorIfThereIsNoneAnyMore() {
+        Check.sentence("Terms: MIRROR: the mirror's entry is that, if there is none");
+        Run x = new Run();
+        for (int i = 0; i < 5; i++) {
+            Check.mirrored(x, 0, 0, 10 + i);
+        }
+        x.crash(0);
+        x.restart(0);
+        Check.takeOverWhole(x, 1);
+        Check.same("it is not in the mirror any more", x.mirrored(1), 0);
+        Check.steps(x, 1, 5, 4, 1, 4, 1, 4, 6);
+        Check.yes("pair", x.pair());
+        Check.yes("moveOwner", x.moveOwner(0));
+        Check.mirrored(x, 0, 0, 20);
+        Check.same("mirror", x.mirrored(1), 1);
+        Check.takeOverWhole(x, 1);
+        Check.same("the value", Check.readValue(x, 1, 0), 20);
+    }
+
+    /** An entry of no lower version can't be met: messages keep their order, and versions grow until all is cleared. */
     private static void mirrorOverALowerVersion() {
         Check.sentence("Terms: or one of a lower version; GOT goes back");
         Run x = new Run();
@@ -495,7 +537,7 @@ final class EdgesOfMessagesTest {
     }
 
     private static void noneWhileCut() {
-        Check.sentence("Promise 7: NONE when the link is cut");
+        Check.sentence("Promise 7: NONE when ... the link is cut");
         for (int c = 0; c < 2; c++) {
             int controller = c;
             Run x = new Run();
@@ -510,7 +552,7 @@ final class EdgesOfMessagesTest {
     }
 
     private static void noneOfNoController() {
-        Check.sentence("Promise 7 and the last row of Terms: numbers that are not as said are refused");
+        Check.sentence("Promise 7 and Terms: Calls with numbers that are not as said are refused");
         Run x = new Run();
         x.write(0, 0, 8);
         x.write(1, 16, 8);

@@ -12,7 +12,8 @@ final class EdgesOfMoveTest {
         notWhileDestagingInIt();
         notWithMessagesOnTheirWay();
         notOfNoVolume();
-        alsoWhileTheLinkIsCut();
+        refusedLeavesWhatWasThere();
+        elseNothingHinders();
         cacheEntriesOfTheVolumeGo();
         mirrorEntriesOfTheVolumeGo();
         Check.end();
@@ -91,7 +92,7 @@ final class EdgesOfMoveTest {
     }
 
     private static void notWithADirtyEntryInIt() {
-        Check.sentence("Promise 13: that one has no dirty entry in it");
+        Check.sentence("Promise 13: that one has no dirty entry ... in it");
         for (int block = 0; block < 32; block++) {
             int volume = block / 16;
             Run x = new Run();
@@ -108,7 +109,7 @@ final class EdgesOfMoveTest {
     }
 
     private static void notWithANoteInIt() {
-        Check.sentence("Promise 13: that one has no note in it");
+        Check.sentence("Promise 13: that one has no ... note ... in it");
         for (int stripe = 0; stripe < 8; stripe++) {
             int volume = stripe / 4;
             Run x = new Run();
@@ -127,7 +128,7 @@ final class EdgesOfMoveTest {
     }
 
     private static void notWhileDestagingInIt() {
-        Check.sentence("Promise 13: that one has no destaging in it");
+        Check.sentence("Promise 13: that one has no ... destaging in it");
         for (int stripe = 0; stripe < 8; stripe++) {
             int volume = stripe / 4;
             Run x = new Run();
@@ -154,21 +155,86 @@ final class EdgesOfMoveTest {
                 Check.yes("arrived", x.moveOwner(volume));
             }
         }
+        for (int count = 1; count <= 3; count++) {
+            Run x = new Run();
+            for (int i = 0; i < count; i++) {
+                Check.steps(x, 0, 8);
+                Check.steps(x, 1, 8);
+            }
+            refused("as many to each, volume 0", x, 0);
+            refused("as many to each, volume 1", x, 1);
+            Check.deliver(x);
+            Check.yes("arrived", x.moveOwner(0));
+        }
     }
 
     private static void notOfNoVolume() {
-        Check.sentence("Promise 13 and the last row of Terms: numbers that are not as said are refused");
+        Check.sentence("Promise 13 and Terms: Calls with numbers that are not as said are refused");
         for (int volume : NO_VOLUME) {
             refused("volume " + volume, Check.withStripe(0), volume);
         }
     }
 
-    private static void alsoWhileTheLinkIsCut() {
-        Check.sentence("Promise 13: false unless (the link is not among these)");
-        Run x = new Run();
-        x.cut(true);
-        Check.yes("cut", x.moveOwner(0));
-        Check.yes("cut", x.moveOwner(1));
+    /** Each reason again where there is much that could be gone behind a call that is refused. */
+    private static void refusedLeavesWhatWasThere() {
+        Check.sentence("Promise 13: false unless ... are refused, changing nothing");
+        for (int volume = 0; volume < 2; volume++) {
+            int owner = volume;
+            for (int wrong : NO_VOLUME) {
+                refused("volume " + wrong, Check.withRemains(), wrong);
+            }
+            for (int c = 0; c < 2; c++) {
+                Run down = Check.withRemains();
+                down.crash(c);
+                refused("down", down, volume);
+                Run alone = Check.withRemains();
+                alone.takeOver(c);
+                refused("alone", alone, volume);
+                Run message = Check.withRemains();
+                Check.steps(message, c, 8);
+                refused("a message", message, volume);
+            }
+            Run dirty = Check.withRemains();
+            Check.mirrored(dirty, owner, 16 * volume + 1, 5);
+            refused("dirty", dirty, volume);
+            dirty.flush(owner);
+            Check.steps(dirty, owner, 5, 4);
+            Check.deliver(dirty);
+            refused("destaging", dirty, volume);
+            Check.steps(dirty, owner, 1, 4, 1, 4);
+            Check.deliver(dirty);
+            refused("noted", dirty, volume);
+        }
+    }
+
+    private static void elseNothingHinders() {
+        Check.sentence("Promise 13: false unless ... [nothing else]");
+        for (int volume = 0; volume < 2; volume++) {
+            Run cut = new Run();
+            cut.cut(true);
+            Check.yes("cut", cut.moveOwner(volume));
+            Run told = new Run();
+            told.flush(volume);
+            Check.yes("told to flush", told.moveOwner(volume));
+            Run disks = new Run();
+            Check.loseAll(disks, 31);
+            Check.yes("without any disk", disks.moveOwner(volume));
+            Run other = new Run();
+            Check.mirrored(other, 1 - volume, 16 * (1 - volume), 5);
+            other.flush(1 - volume);
+            Check.steps(other, 1 - volume, 5, 4);
+            Check.deliver(other);
+            Check.yes("the other one destages in its own volume", other.moveOwner(volume));
+            Run open = new Run();
+            open.cut(true);
+            int t = open.write(volume, 16 * volume, 5);
+            open.cut(false);
+            open.flush(volume);
+            Check.steps(open, volume, 5, 4, 1, 4, 1, 4, 6);
+            Check.deliver(open);
+            Check.yes("a ticket is open", open.moveOwner(volume));
+            Check.same("open still", open.ticket(t), 0);
+        }
     }
 
     /** Controller 1 - from has moved its volume to controller from, which has an entry of each block. */

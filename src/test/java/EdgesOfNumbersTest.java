@@ -14,7 +14,7 @@ final class EdgesOfNumbersTest {
 
     public static void main(String[] args) {
         Check.sentence("Terms: Calls with numbers that are not as said are refused, changing nothing");
-        for (int i = 0; i < 6; i++) {
+        for (int i = 0; i < 7; i++) {
             int which = i;
             numbersOfControllers(() -> busy(which));
             numbersOfBlocks(() -> busy(which));
@@ -31,6 +31,7 @@ final class EdgesOfNumbersTest {
             case 2: return takingOver();
             case 3: return repairing();
             case 4: return downAndLate();
+            case 5: return bothDown();
             default: return cutWithFewDisks();
         }
     }
@@ -86,6 +87,12 @@ final class EdgesOfNumbersTest {
         return x;
     }
 
+    private static Run bothDown() {
+        Run x = downAndLate();
+        x.crash(1);
+        return x;
+    }
+
     private static Run cutWithFewDisks() {
         Run x = new Run();
         Check.mirrored(x, 1, 20, 5);
@@ -96,10 +103,10 @@ final class EdgesOfNumbersTest {
         return x;
     }
 
-    /** Both sides of what is allowed, the least and the greatest int, and numbers that are the same in their low bits. */
+    /** Both sides of what is allowed, the least and the greatest int, and some that are like 0 or 1 in their low bits. */
     private static int[] wrong(int first) {
-        return new int[] {Integer.MIN_VALUE, Integer.MIN_VALUE + 1, -256, -32, -2, -1, first, first + 1, 64, 256, 1 << 16,
-            Integer.MAX_VALUE - 1, Integer.MAX_VALUE};
+        return new int[] {Integer.MIN_VALUE, Integer.MIN_VALUE + 1, -256, -32, -2, -1, first, first + 1, 64, 256,
+            1 << 16, Integer.MAX_VALUE - 1, Integer.MAX_VALUE};
     }
 
     private static void refused(Supplier<Run> maker, String what, int due, int first, IntFunction<Run.Call> call) {

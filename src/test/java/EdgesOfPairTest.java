@@ -1,4 +1,4 @@
-/** The edges that the document names for promise 11, pair: each reason for false by itself, and what it leaves behind. */
+/** The edges that the document names for promise 11, pair: each reason for false by itself, and what becomes of all. */
 final class EdgesOfPairTest {
     public static void main(String[] args) {
         againAlsoIfTheyAre();
@@ -13,6 +13,8 @@ final class EdgesOfPairTest {
         notWithNoOnesKey();
         notWithAMirrorEntryOfAVolumeThatNoneOwns();
         alsoWithAMirrorEntryOfAVolumeThatOneOwns();
+        refusedLeavesWhatWasThere();
+        elseNothingHinders();
         bothHaveThisKeyThen();
         noCacheEntries();
         noMirrorEntriesRemarksBeatsMessages();
@@ -79,7 +81,7 @@ final class EdgesOfPairTest {
     }
 
     private static void notWhileOneIsDestaging() {
-        Check.sentence("Promise 11: neither is destaging");
+        Check.sentence("Promise 11: neither is ... destaging");
         for (int c = 0; c < 2; c++) {
             Run x = new Run();
             x.write(c, 16 * c, 5);
@@ -95,7 +97,7 @@ final class EdgesOfPairTest {
     }
 
     private static void notWhileOneHasADirtyEntry() {
-        Check.sentence("Promise 11: neither has a dirty entry");
+        Check.sentence("Promise 11: neither ... has a dirty entry");
         for (int block = 0; block < 32; block++) {
             Run x = new Run();
             Check.same("read", Check.readValue(x, block / 16, block), 0);
@@ -106,7 +108,7 @@ final class EdgesOfPairTest {
     }
 
     private static void notWhileOneHasANote() {
-        Check.sentence("Promise 11: neither has a note");
+        Check.sentence("Promise 11: neither ... a note");
         for (int stripe = 0; stripe < 8; stripe++) {
             int owner = stripe / 4;
             Run x = new Run();
@@ -123,7 +125,7 @@ final class EdgesOfPairTest {
 
     /** A write under way is never without a note: that of a destaging, or that of a stripe that is repaired. */
     private static void notWhileOneHasAWriteUnderWay() {
-        Check.sentence("Promise 11: neither has a write under way");
+        Check.sentence("Promise 11: neither ... a write under way");
         for (int c = 0; c < 2; c++) {
             Run x = new Run();
             int partner = 1 - c;
@@ -152,7 +154,7 @@ final class EdgesOfPairTest {
         pairs("not cut", x);
     }
 
-    /** Controller 0 has key 2 and so have disks 0 .. taken - 1; controller 1 has key 1 and so have the others; some are lost. */
+    /** Controller 0 and disks 0 .. taken - 1 have key 2, controller 1 and the other disks key 1; some are lost. */
     private static Run withKeys(int taken, int lost) {
         Run x = new Run();
         x.takeOver(0);
@@ -204,7 +206,8 @@ final class EdgesOfPairTest {
 
     /** Each volume, and its mirror at each controller, with its first and its last block. */
     private static void notWithAMirrorEntryOfAVolumeThatNoneOwns() {
-        Check.sentence("Promise 11: of a volume that none owns neither has a mirror entry (it is to be taken over first)");
+        Check.sentence(
+            "Promise 11: of a volume that none owns neither has a mirror entry (it is to be taken over first)");
         for (int block : new int[] {0, 7, 15, 16, 23, 31}) {
             for (int owner = 0; owner < 2; owner++) {
                 int volume = block / 16;
@@ -250,6 +253,71 @@ final class EdgesOfPairTest {
         }
     }
 
+    /** Each reason again where there is much that could be gone behind a call that is refused. */
+    private static void refusedLeavesWhatWasThere() {
+        Check.sentence("Promise 11: false unless ... are refused, changing nothing");
+        for (int c = 0; c < 2; c++) {
+            Run down = withRemainsAndMessages();
+            down.crash(c);
+            refused("down", down);
+            Run taking = withRemainsAndMessages();
+            taking.takeOver(c);
+            refused("taking over", taking);
+            Run dirty = withRemainsAndMessages();
+            dirty.write(c, 16 * c + 1, 5);
+            refused("dirty", dirty);
+            dirty.flush(c);
+            Check.steps(dirty, c, 5, 4);
+            refused("destaging, a write is under way", dirty);
+            Check.steps(dirty, c, 1, 4, 1, 4);
+            refused("noted", dirty);
+            Run noneOwns = withRemainsAndMessages();
+            noneOwns.takeOver(c);
+            noneOwns.crash(c);
+            noneOwns.restart(c);
+            Check.same("another key", noneOwns.key(c), 2);
+            refused("a mirror entry of a volume that none owns", noneOwns);
+        }
+        Run cut = withRemainsAndMessages();
+        cut.cut(true);
+        refused("cut", cut);
+        Run keys = withRemainsAndMessages();
+        Check.loseAll(keys, 31);
+        keys.replace(4);
+        refused("no one's key", keys);
+    }
+
+    private static Run withRemainsAndMessages() {
+        Run x = Check.withRemains();
+        Check.steps(x, 0, 8);
+        Check.steps(x, 1, 8);
+        Check.yes("pairs as it is, so what is refused behind this has one reason", x.again().pair());
+        return x;
+    }
+
+    private static void elseNothingHinders() {
+        Check.sentence("Promise 11: false unless ... [nothing else]");
+        Run x = new Run();
+        x.cut(true);
+        int t = x.write(0, 0, 5);
+        x.cut(false);
+        x.flush(0);
+        Check.steps(x, 0, 5, 4, 1, 4, 1, 4, 6);
+        x.flush(1);
+        Check.steps(x, 1, 7, 8);
+        Check.loseAll(x, 15);
+        pairs("told to flush, a ticket is open, messages, missed beats, disks are lost", x);
+        Check.same("open still", x.ticket(t), 0);
+        Run late = new Run();
+        late.write(1, 16, 5);
+        late.flush(1);
+        Check.steps(late, 1, 5, 4);
+        late.crash(1);
+        late.restart(1);
+        pairs("a write is late", late);
+        Check.same("late still", late.lates(), 1);
+    }
+
     private static void bothHaveThisKeyThen() {
         Check.sentence("Promise 11: Both have this key then");
         Run zeros = withKeys(5, 0);
@@ -262,7 +330,7 @@ final class EdgesOfPairTest {
     }
 
     private static void noCacheEntries() {
-        Check.sentence("Promise 11: no cache entries");
+        Check.sentence("Promise 11: no cache ... entries");
         Run x = new Run();
         for (int block = 0; block < 32; block++) {
             Check.same("read", Check.readValue(x, block / 16, block), 0);
@@ -276,7 +344,7 @@ final class EdgesOfPairTest {
 
     /** One block of each volume is on the disks, but its FORGET has not arrived; both have missed a beat. */
     private static void noMirrorEntriesRemarksBeatsMessages() {
-        Check.sentence("Promise 11: no mirror entries, remarks, missed beats, and no messages are on their way");
+        Check.sentence("Promise 11: no ... mirror entries, remarks, missed beats, and no messages are on their way");
         Run x = new Run();
         x.write(0, 15, 5);
         x.write(1, 31, 6);
@@ -359,7 +427,7 @@ final class EdgesOfPairTest {
     }
 
     private static void volumeThatOneOwned() {
-        Check.sentence("Promise 11: Both are paired (what one owned, it owns)");
+        Check.sentence("Promise 11: a volume that none owned ... of one that both owned [another stays as it is]");
         for (int moved = 0; moved < 4; moved++) {
             Run x = new Run();
             for (int v = 0; v < 2; v++) {

@@ -51,7 +51,7 @@ final class EdgesOfStateTest {
     }
 
     private static void flushOfNoController() {
-        Check.sentence("Promise 14 and the last row of Terms: numbers that are not as said are refused");
+        Check.sentence("Promise 14 and Terms: Calls with numbers that are not as said are refused");
         Run x = new Run();
         x.write(0, 0, 5);
         x.write(1, 16, 5);
@@ -125,7 +125,8 @@ final class EdgesOfStateTest {
     }
 
     private static void upOrNot() {
-        Check.sentence("Promise 23: its key (4); 1 or 0 whether it is up (5), paired (6), taking over (7), told to flush (8)");
+        Check.sentence(
+            "Promise 23: its key (4); 1 or 0 whether it is up (5), paired (6), taking over (7), told to flush (8)");
         for (int c = 0; c < 2; c++) {
             Run x = new Run();
             is(x, c, 1, 1, 1, 0, 0);

@@ -12,11 +12,14 @@ final class EdgesOfStepsTest {
         fewerCountsThoseTaken();
         mirrorEntriesBecomeDirty();
         remarksBecomeNotesAndRepairs();
+        repairsOfTakingOverTwice();
         repairOfTheLowest();
         repairIfNoneIsMissing();
         dirtyBlocksOnLostDisksAreLeftOut();
         parityIfItsDiskIsThereAndNoDataWereLost();
         whatWasLostIsSaidWhenItIsTaken();
+        otherDataAreThoseOfTheDisks();
+        lostDataOfTheOneBefore();
         sameVersionStill();
         forgetGoesIfItIsPaired();
         openWritesUpToTheTakenVersion();
@@ -27,6 +30,7 @@ final class EdgesOfStepsTest {
         cleanEntriesDoNotCount();
         noteGoesIfItIsPaired();
         lowestNoteGoes();
+        notesOfStripesWithARemark();
         notesToBeRepairedStay();
         closeGoesIfItIsPaired();
         toldToFlushNoMore();
@@ -37,7 +41,7 @@ final class EdgesOfStepsTest {
         Check.end();
     }
 
-    /** Controller 0 has a write of a block of its volume under way, with the value 9; its partner knows nothing of it. */
+    /** Controller 0 has a write of a block of its volume under way, with the value 9; its partner has heard nothing. */
     private static Run withWriteUnderWay(int block) {
         Run x = new Run();
         x.write(0, block, 9);
@@ -64,7 +68,7 @@ final class EdgesOfStepsTest {
     }
 
     private static void landsByItsKey() {
-        Check.sentence("Step 1: if the disk's key is the one that the controller had; else it is fenced");
+        Check.sentence("Step 1: if the disk's key is the one that the controller had ... else it is fenced");
         for (int block = 0; block < 16; block++) {
             int disk = Check.disk(block);
             for (int taken = 0; taken <= 5; taken++) {
@@ -248,8 +252,25 @@ final class EdgesOfStepsTest {
         }
     }
 
+    /** What is to be repaired, and noted, stays so when its controller takes over again. */
+    private static void repairsOfTakingOverTwice() {
+        Check.sentence("Step 2: each stripe that has a remark has a note and is to be repaired");
+        Run x = withNotes(0);
+        Check.takeOverWhole(x, 1);
+        Check.takeOverWhole(x, 1);
+        Check.same("notes", x.notes(1), 15);
+        Check.same("to be repaired still", x.repairs(1), 15);
+        Run own = withNotes(0);
+        own.write(1, 31, 5);
+        own.flush(1);
+        Check.steps(own, 1, 5, 4, 1, 4, 1, 4);
+        Check.takeOverWhole(own, 1);
+        Check.same("its own note, too", own.notes(1), 15 | 128);
+        Check.same("which is not to be repaired", own.repairs(1), 15);
+    }
+
     private static void repairOfTheLowest() {
-        Check.sentence("Step 3: REPAIR of the lowest stripe that is to be; it is to be repaired no more");
+        Check.sentence("Step 3: REPAIR of the lowest stripe that is to be ... it is to be repaired no more");
         for (int owner = 0; owner < 2; owner++) {
             int taker = 1 - owner;
             Run x = withNotes(owner);
@@ -264,7 +285,7 @@ final class EdgesOfStepsTest {
     }
 
     private static void repairIfNoneIsMissing() {
-        Check.sentence("Step 3: a write of its parity is under way, if none of its blocks is missing");
+        Check.sentence("Step 3: a write of its parity ... is under way, if none of its blocks is missing");
         for (int disk = 0; disk < 5; disk++) {
             Run lost = torn();
             lost.lose(disk);
@@ -303,17 +324,21 @@ final class EdgesOfStepsTest {
     private static void dirtyBlocksOnLostDisksAreLeftOut() {
         Check.sentence("Step 4: the next dirty data block's write is under way, those on lost disks left out");
         for (int stripe = 0; stripe < 8; stripe++) {
-            for (int lost = 0; lost < 32; lost++) {
-                destagesWhole(stripe, lost);
+            for (int missing = 0; missing < 32; missing++) {
+                destagesWhole(stripe, missing, 0);
+                if (missing != 31) {
+                    destagesWhole(stripe, 0, missing);
+                }
             }
         }
     }
 
-    /** All four blocks are dirty, so no data are lost, however few disks are there. */
-    private static void destagesWhole(int stripe, int lost) {
+    /** All four blocks are dirty, so no data are lost, however few disks are there or have their blocks. */
+    private static void destagesWhole(int stripe, int lost, int replaced) {
         Run x = new Run();
         int owner = stripe / 4;
         Check.loseAll(x, lost);
+        replaceAll(x, replaced);
         int parity = 0;
         for (int block = 4 * stripe; block < 4 * stripe + 4; block++) {
             x.write(owner, block, Check.someValue(block));
@@ -337,25 +362,41 @@ final class EdgesOfStepsTest {
         Check.same("destages", x.destages(owner), Run.NONE);
     }
 
-    private static void parityIfItsDiskIsThereAndNoDataWereLost() {
-        Check.sentence("Step 4: behind these the parity's, if its disk is there and no data were lost");
-        for (int block = 0; block < 32; block++) {
-            for (int lost = 0; lost < 32; lost++) {
-                destagesOne(block, lost);
+    /** Disks that are there, with the key that all have, but without any block. */
+    private static void replaceAll(Run x, int disks) {
+        Check.loseAll(x, disks);
+        for (int d = 0; d < 5; d++) {
+            if ((disks >> d & 1) == 1) {
+                Check.yes("replace", x.replace(d));
+                Check.same("key", x.keyOf(d), 1);
             }
         }
     }
 
-    /** One block is dirty; another one's data are lost if its disk is, and a second one. */
-    private static void destagesOne(int block, int lost) {
+    private static void parityIfItsDiskIsThereAndNoDataWereLost() {
+        Check.sentence("Step 4: behind these the parity's, if its disk is there and no data were lost");
+        for (int block = 0; block < 32; block++) {
+            for (int missing = 0; missing < 32; missing++) {
+                destagesOne(block, missing, 0);
+                if (missing != 31) {
+                    destagesOne(block, 0, missing);
+                }
+            }
+        }
+    }
+
+    /** One block is dirty; another one's data are lost if it is missing, and a second one. */
+    private static void destagesOne(int block, int lost, int replaced) {
         int owner = block / 16;
         int stripe = block / 4;
         int parityDisk = Check.parityDisk(stripe);
         int otherData = 31 & ~(1 << parityDisk) & ~(1 << Check.disk(block));
-        boolean dataAreLost = (lost & otherData) != 0 && Integer.bitCount(lost) >= 2;
+        int missing = lost | replaced;
+        boolean dataAreLost = (missing & otherData) != 0 && Integer.bitCount(missing) >= 2;
         Run x = Check.withStripe(stripe);
         int old = x.onDisk(parityDisk, stripe);
         Check.loseAll(x, lost);
+        replaceAll(x, replaced);
         x.write(owner, block, 9);
         x.flush(owner);
         Check.steps(x, owner, 5);
@@ -363,16 +404,20 @@ final class EdgesOfStepsTest {
             Check.steps(x, owner, 4, 1);
             Check.same("block", Check.onDisk(x, block), 9);
         }
-        if ((lost >> parityDisk & 1) == 0) {
-            int due = dataAreLost ? old : old ^ Check.someValue(block) ^ 9;
-            Check.steps(x, owner, dataAreLost ? new int[0] : new int[] {4, 1});
-            Check.same("block " + block + ", lost " + lost + ", parity", x.onDisk(parityDisk, stripe), due);
+        String when = "block " + block + ", lost " + lost + ", replaced " + replaced;
+        if ((lost >> parityDisk & 1) == 0 && !dataAreLost) {
+            Check.steps(x, owner, 4, 1);
+            Check.same(when + ", parity", x.onDisk(parityDisk, stripe), old ^ Check.someValue(block) ^ 9);
+        } else if ((missing >> parityDisk & 1) == 0) {
+            Check.same(when + ", parity as it was", x.onDisk(parityDisk, stripe), old);
+        } else {
+            Check.noSuchElement(when + ", no parity", () -> x.onDisk(parityDisk, stripe));
         }
         Check.steps(x, owner, 4, 6, 7);
     }
 
     private static void whatWasLostIsSaidWhenItIsTaken() {
-        Check.sentence("Step 4: and no data were lost; step 5: taken are ... what the other data of the stripe are");
+        Check.sentence("Steps 4, 5: and no data were lost ... taken are ... what the other data of the stripe are");
         Run before = Check.withStripe(0);
         before.lose(1);
         before.lose(2);
@@ -407,6 +452,49 @@ final class EdgesOfStepsTest {
         Check.same("its disk is there by now", anew.onDisk(4, 0), old ^ Check.someValue(0) ^ 9);
     }
 
+    /** What two lost disks had is in the cache alone; and a late write has landed under an entry. */
+    private static void otherDataAreThoseOfTheDisks() {
+        Check.sentence("Step 5: taken are ... what the other data of the stripe are");
+        Run lost = Check.withStripe(0);
+        for (int block = 1; block < 4; block++) {
+            Check.same("read", Check.readValue(lost, 0, block), Check.someValue(block));
+        }
+        lost.lose(1);
+        lost.lose(2);
+        lost.write(0, 0, 9);
+        lost.flush(0);
+        Check.steps(lost, 0, 5, 4, 1, 4, 6);
+        Run late = new Run();
+        late.write(0, 1, 8);
+        late.flush(0);
+        Check.steps(late, 0, 5, 4);
+        late.crash(0);
+        late.restart(0);
+        Check.yes("pair", late.pair());
+        Check.same("the entry", Check.readValue(late, 0, 1), 0);
+        Check.same("lands under it", late.late(0), 1);
+        late.write(0, 0, 1);
+        late.flush(0);
+        Check.steps(late, 0, 5, 4, 1, 4, 1, 4);
+        Check.same("the entry", Check.readValue(late, 0, 1), 0);
+        Check.same("parity of what the disk has", late.onDisk(4, 0), 1 ^ 8);
+    }
+
+    private static void lostDataOfTheOneBefore() {
+        Check.sentence("Step 4: and no data were lost");
+        Run x = new Run();
+        Check.makeAlone(x, 0);
+        x.lose(1);
+        x.lose(2);
+        x.write(0, 0, 9);
+        Check.steps(x, 0, 5, 4, 1, 4, 6);
+        x.write(0, 4, 1);
+        x.write(0, 5, 2);
+        x.write(0, 6, 4);
+        Check.steps(x, 0, 5, 4, 1, 4, 1, 4, 6);
+        Check.same("none of this one's were lost", x.onDisk(3, 1), 1 ^ 2 ^ 4);
+    }
+
     private static void sameVersionStill() {
         Check.sentence("Step 4: each entry that was taken and has the same version still is not dirty any more");
         for (int behind = 0; behind <= 4; behind++) {
@@ -419,15 +507,24 @@ final class EdgesOfStepsTest {
             int[] steps = {4, 1, 4, 1, 4, 1};
             for (int i = 0; i < steps.length; i++) {
                 if (i == behind) {
-                    x.write(0, 0, 5);
+                    x.write(0, 0, 7);
                 }
                 Check.steps(x, 0, steps[i]);
             }
             Check.steps(x, 0, 4);
-            Check.same("written again, with the same value even: dirty", x.dirty(0), 1);
+            Check.same("written again: dirty", x.dirty(0), 1);
             Check.arrivals(x, 1, 3, 0, 2, Run.NONE);
             Check.same("mirror", x.mirrored(1), 1);
+            Check.same("what was taken is on the disk", x.onDisk(0, 0), 5);
+            Check.same("and its parity", x.onDisk(4, 0), 5 ^ 6);
         }
+        Run same = new Run();
+        same.write(0, 0, 5);
+        same.flush(0);
+        Check.steps(same, 0, 5);
+        same.write(0, 0, 5);
+        Check.steps(same, 0, 4, 1, 4, 1, 4);
+        Check.same("the same value, but another version: dirty", same.dirty(0), 1);
         Run after = new Run();
         after.write(0, 0, 5);
         Check.deliver(after);
@@ -448,6 +545,12 @@ final class EdgesOfStepsTest {
         Check.steps(paired, 0, 4);
         Check.same("and FORGET", paired.messages(1), 3);
         Check.same("open: it is paired", paired.ticket(0), 0);
+        Run read = new Run();
+        Check.same("an entry that is not taken", Check.readValue(read, 0, 1), 0);
+        read.write(0, 0, 5);
+        read.flush(0);
+        Check.steps(read, 0, 5, 4, 1, 4, 1, 4);
+        Check.same("MIRROR, NOTE, one FORGET", read.messages(1), 3);
         Run alone = new Run();
         alone.write(0, 0, 5);
         alone.flush(0);
@@ -459,7 +562,7 @@ final class EdgesOfStepsTest {
     }
 
     private static void openWritesUpToTheTakenVersion() {
-        Check.sentence("Step 4: if it is alone, open writes (of this controller) of all blocks that were taken, with versions up to the taken one, are done");
+        Check.sentence("Step 4: if it is alone, open writes (of this controller) ... with versions up to the taken one");
         Run x = new Run();
         int others = x.write(1, 16, 1);
         Check.makeAlone(x, 0);
@@ -483,6 +586,43 @@ final class EdgesOfStepsTest {
         Check.same("another stripe", x.ticket(otherStripe), 0);
         Check.same("the other controller's", x.ticket(others), 0);
         openWritesOfThisControllerAlone();
+        openWritesOfOlderVersions();
+        refusedWritesStayRefused();
+    }
+
+    /** Blocks that were not taken, with lower versions: of another stripe, and of this one, on its disk by now. */
+    private static void openWritesOfOlderVersions() {
+        Run x = new Run();
+        x.cut(true);
+        int onDisk = x.write(0, 0, 1);
+        x.flush(0);
+        Check.steps(x, 0, 5, 4, 1, 4, 1, 4, 6, 7);
+        Check.same("its MIRROR was lost, and it is paired", x.ticket(onDisk), 0);
+        Check.steps(x, 0, 8, 8, 8, 8);
+        int otherStripe = x.write(0, 4, 1);
+        int taken = x.write(0, 1, 1);
+        int takenToo = x.write(0, 2, 1);
+        Check.steps(x, 0, 5);
+        Check.same("destages", x.destages(0), 0);
+        Check.steps(x, 0, 4, 1, 4, 1, 4, 1, 4);
+        Check.same("taken", x.ticket(taken) + x.ticket(takenToo), 2);
+        Check.same("of another stripe", x.ticket(otherStripe), 0);
+        Check.same("of this one, but not taken", x.ticket(onDisk), 0);
+    }
+
+    private static void refusedWritesStayRefused() {
+        Run x = new Run();
+        int atOnce = x.write(0, 16, 1);
+        int whenDown = x.write(0, 0, 1);
+        x.crash(0);
+        x.restart(0);
+        Check.yes("pair", x.pair());
+        Check.makeAlone(x, 0);
+        int t = x.write(0, 0, 2);
+        Check.steps(x, 0, 5, 4, 1, 4, 1, 4);
+        Check.same("open", x.ticket(t), 1);
+        Check.same("refused at once", x.ticket(atOnce), 2);
+        Check.same("refused when it went down", x.ticket(whenDown), 2);
     }
 
     /** Both own volume 0 and have an open write of block 0, that of controller 0 with the lower version. */
@@ -500,7 +640,7 @@ final class EdgesOfStepsTest {
     }
 
     private static void openWritesOfBlocksLeftOut() {
-        Check.sentence("Step 4: open writes of all blocks that were taken are done");
+        Check.sentence("Step 4: open writes ... of all blocks that were taken ... are done");
         Run x = new Run();
         Check.makeAlone(x, 0);
         int t = x.write(0, 0, 1);
@@ -594,7 +734,7 @@ final class EdgesOfStepsTest {
     }
 
     private static void cleanEntriesDoNotCount() {
-        Check.sentence("Step 5: the stripe with the most dirty entries; and a cache entry is dirty");
+        Check.sentence("Step 5: and a cache entry is dirty ... the stripe with the most dirty entries");
         Run x = withBothVolumes();
         for (int block = 0; block < 4; block++) {
             Check.same("read", Check.readValue(x, 1, block), 0);
@@ -627,7 +767,7 @@ final class EdgesOfStepsTest {
     }
 
     private static void lowestNoteGoes() {
-        Check.sentence("Step 6: The lowest note goes");
+        Check.sentence("Step 6: The lowest note ... goes");
         for (int owner = 0; owner < 2; owner++) {
             Run x = withNotes(owner);
             for (int i = 1; i <= 4; i++) {
@@ -638,6 +778,28 @@ final class EdgesOfStepsTest {
             }
             Check.steps(x, owner, 7);
         }
+    }
+
+    /** Controller 1 has heard NOTE but not CLOSE of a stripe that is its own now. */
+    private static void notesOfStripesWithARemark() {
+        Check.sentence("Step 6: The lowest note of a stripe that is not to be repaired goes");
+        Run x = new Run();
+        Check.mirrored(x, 0, 0, 5);
+        x.flush(0);
+        Check.steps(x, 0, 5, 4, 1, 4, 1, 4);
+        Check.deliver(x);
+        x.cut(true);
+        Check.steps(x, 0, 6, 7);
+        x.cut(false);
+        Check.yes("moveOwner", x.moveOwner(0));
+        Check.same("remarks", x.remarks(1), 1);
+        x.write(1, 0, 6);
+        x.flush(1);
+        Check.steps(x, 1, 5, 4, 1, 4, 1, 4);
+        Check.same("notes", x.notes(1), 1);
+        Check.steps(x, 1, 6, 7);
+        Check.same("notes", x.notes(1), 0);
+        Check.same("remarks", x.remarks(1), 1);
     }
 
     /** Repairs go before notes, so no note goes before all repairs are begun, also if none of them needs a write. */

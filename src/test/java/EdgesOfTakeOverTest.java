@@ -135,7 +135,7 @@ final class EdgesOfTakeOverTest {
     }
 
     private static void notWithoutController() {
-        Check.sentence("Promise 12 and the last row of Terms: numbers that are not as said are refused");
+        Check.sentence("Promise 12 and Terms: Calls with numbers that are not as said are refused");
         Run x = new Run();
         Check.mirrored(x, 0, 0, 5);
         for (int n : NO_CONTROLLER) {

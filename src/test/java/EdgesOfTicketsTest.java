@@ -64,7 +64,7 @@ final class EdgesOfTicketsTest {
     }
 
     private static void noneWith200Tickets() {
-        Check.sentence("Promises 2, 3: NONE, no ticket, when 200 tickets are there");
+        Check.sentence("Promises 2, 3: NONE, no ticket, when ... 200 tickets are there");
         Run x = withTickets(200, false);
         Check.refused("write", x, Run.NONE, y -> y.write(0, 0, 1), y -> y.write(0, 15, Integer.MAX_VALUE));
         Check.refused("write that would be refused", x, Run.NONE, y -> y.write(0, 16, 1), y -> y.write(1, 0, 1));
@@ -120,20 +120,22 @@ final class EdgesOfTicketsTest {
     }
 
     private static void writeRefusedIfItDoesNotOwnTheVolume() {
-        Check.sentence("Terms: WRITING: refused if it does not own the volume");
+        Check.sentence("Terms: WRITING ... refused if ... does not own the volume");
         for (int block : new int[] {0, 15, 16, 31}) {
             int owner = block / 16;
             int other = 1 - owner;
             Run x = new Run();
-            Check.refusedWithTicket("the other one's", x, Integer.MAX_VALUE, y -> y.write(other, block, Integer.MAX_VALUE));
+            int greatest = Integer.MAX_VALUE;
+            Check.refusedWithTicket("the other one's", x, greatest, y -> y.write(other, block, greatest));
             Check.yes("moveOwner", x.moveOwner(owner));
-            Check.refusedWithTicket("moved away", x, Integer.MIN_VALUE, y -> y.write(owner, block, Integer.MIN_VALUE));
+            int least = Integer.MIN_VALUE;
+            Check.refusedWithTicket("moved away", x, least, y -> y.write(owner, block, least));
             Check.same("moved here", x.ticket(x.write(other, block, 4)), OPEN);
         }
     }
 
     private static void writeNotRefusedElse() {
-        Check.sentence("Terms: WRITING: else the cache's entry is the value; the ticket is open");
+        Check.sentence("Terms: WRITING ... else the cache's entry is the value ... the ticket is open");
         Run x = new Run();
         Check.takeOverWhole(x, 1);
         Check.loseAll(x, 31);
@@ -169,7 +171,7 @@ final class EdgesOfTicketsTest {
     }
 
     private static void writeOfTheLeastAndTheGreatest() {
-        Check.sentence("Terms: STRIPES have a block (an int) on each disk");
+        Check.sentence("Terms: STRIPES ... have a block (an int) on each disk");
         int[] values = {Integer.MIN_VALUE, Integer.MAX_VALUE, -1, 0};
         Run x = new Run();
         for (int i = 0; i < 4; i++) {
@@ -186,7 +188,7 @@ final class EdgesOfTicketsTest {
     }
 
     private static void readRefusedIfDown() {
-        Check.sentence("Terms: READING: refused likewise (down)");
+        Check.sentence("Terms: READING: refused likewise [down]");
         for (int block : new int[] {0, 15, 16, 31}) {
             Run x = Check.withStripe(block / 4);
             int owner = block / 16;
@@ -199,7 +201,7 @@ final class EdgesOfTicketsTest {
     }
 
     private static void readRefusedIfItDoesNotOwnTheVolume() {
-        Check.sentence("Terms: READING: refused likewise (does not own the volume)");
+        Check.sentence("Terms: READING: refused likewise [does not own the volume]");
         for (int block : new int[] {0, 15, 16, 31}) {
             Run x = Check.withStripe(block / 4);
             int owner = block / 16;
@@ -233,7 +235,7 @@ final class EdgesOfTicketsTest {
     }
 
     private static void fencedByLesserKeys() {
-        Check.sentence("Terms: at least three disks that are there have another key (a lesser one, too)");
+        Check.sentence("Terms: at least three disks that are there have another key [a lesser one, too]");
         for (int there = 0; there <= 5; there++) {
             Run x = new Run();
             Check.same("an entry", Check.readValue(x, 0, 1), 0);
@@ -280,7 +282,7 @@ final class EdgesOfTicketsTest {
     }
 
     private static void notFencedIfRefusedBefore() {
-        Check.sentence("Terms: READING: refused likewise; if at least three disks ...");
+        Check.sentence("Terms: READING: refused likewise; if at least three disks");
         Run x = new Run();
         Check.takeOverWhole(x, 1);
         Check.refusedWithTicket("not its volume", x, 0, y -> y.read(0, 16));

@@ -1,8 +1,9 @@
 import java.util.Random;
 
 /**
- * All that can be learnt of a run's object without a further call of it: by looking at others that were called alike,
- * and by letting those go on in many ways, which brings to light what no call shows (entries, messages, what was taken).
+ * All that can be learnt of a run's object without a further call of it: by looking at others that were called
+ * alike, and by letting those go on in many ways, which brings to light what no call shows at once (entries, messages,
+ * what was taken).
  */
 final class Probe {
     private static final int MOST_TICKETS = 200;
