@@ -103,7 +103,7 @@ final class EdgesOfNumbersTest {
         return x;
     }
 
-    /** Both sides of what is allowed, the least and the greatest int, and some that are like 0 or 1 in their low bits. */
+    /** Both sides of what is allowed, the least and the greatest int, and some that are like 0 or 1 in low bits. */
     private static int[] wrong(int first) {
         return new int[] {Integer.MIN_VALUE, Integer.MIN_VALUE + 1, -256, -32, -2, -1, first, first + 1, 64, 256,
             1 << 16, Integer.MAX_VALUE - 1, Integer.MAX_VALUE};

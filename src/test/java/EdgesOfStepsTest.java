@@ -562,7 +562,7 @@ final class EdgesOfStepsTest {
     }
 
     private static void openWritesUpToTheTakenVersion() {
-        Check.sentence("Step 4: if it is alone, open writes (of this controller) ... with versions up to the taken one");
+        Check.sentence("Step 4: open writes (of this controller) ... with versions up to the taken one, are done");
         Run x = new Run();
         int others = x.write(1, 16, 1);
         Check.makeAlone(x, 0);

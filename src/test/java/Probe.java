@@ -184,8 +184,7 @@ final class Probe {
         }
         states();
         ask(y -> Run.bit(y.takeOver(1)));
-        steps(1, 7);
-        steps(1, 50);
+        steps(1, 57);
         blocks();
     }
 
