@@ -6,6 +6,7 @@ import java.util.Random;
  * what was taken).
  */
 final class Probe {
+    private static final int FEWEST_CALLS = 100;
     private static final int MOST_TICKETS = 200;
     private static final int RANDOM_TAILS = 16;
     private static final int RANDOM_CALLS = 60;
@@ -42,6 +43,7 @@ final class Probe {
 
     /** All that can be seen, at once and with up to so many calls more. */
     static String all(Run run, int mostCalls) {
+        Check.yes("calls enough are left to look at all", mostCalls >= FEWEST_CALLS);
         Probe p = new Probe(run, mostCalls);
         p.look();
         p.lookAtTickets();
@@ -69,7 +71,7 @@ final class Probe {
     }
 
     private String ask(Run.Call call) {
-        if (callsLeft == 0) {
+        if (callsLeft <= 0) {
             return "";
         }
         callsLeft--;
