@@ -1,3 +1,4 @@
+import java.lang.reflect.InvocationTargetException;
 import java.util.ArrayList;
 import java.util.List;
 import java.util.NoSuchElementException;
@@ -59,6 +60,22 @@ final class Run {
             return NO_SUCH_ELEMENT;
         } catch (RuntimeException e) {
             return "throws " + e.getClass().getName();
+        }
+    }
+
+    /** The same for a call by its name, on any object that has a method like that of the face. */
+    static String answer(Object on, String name, Object... arguments) {
+        Class<?>[] types = new Class<?>[arguments.length];
+        for (int i = 0; i < types.length; i++) {
+            types[i] = arguments[i] instanceof Boolean ? boolean.class : int.class;
+        }
+        try {
+            return String.valueOf(on.getClass().getDeclaredMethod(name, types).invoke(on, arguments));
+        } catch (InvocationTargetException e) {
+            boolean isPromised = e.getCause() instanceof NoSuchElementException;
+            return isPromised ? NO_SUCH_ELEMENT : "throws " + e.getCause().getClass().getName();
+        } catch (ReflectiveOperationException e) {
+            throw new IllegalStateException(name, e);
         }
     }
 
